@@ -505,7 +505,7 @@ public final class RowPruner {
         return answer(marked);
     }
 
-    // ---- on paper
+    // ---- ON PAPER
 
     public int without(int txn) {
         int why = asOpen(txn);

@@ -10,6 +10,7 @@ final class ModelTest {
     private int keys;
     private int sizes;
     private int opens;
+    private int waits;
 
     public static void main(String[] args) {
         int runs = args.length > 0 ? Integer.parseInt(args[0]) : 120;
@@ -32,14 +33,18 @@ final class ModelTest {
         told = new StringBuilder();
         keys = new int[] {1, 2, 3, 6, 12}[below(5)];
         sizes = new int[] {2, 5, 9, 20}[below(4)];
-        opens = new int[] {1, 2, 3, 5}[below(4)];
+        opens = new int[] {1, 2, 3, 5, 9}[below(5)];
+        waits = below(3) == 0 ? 25 : 3;
     }
 
     private void walk(int run) {
         start(run);
-        for (int i = 0; i < 400 && due.wrong() == 0; i++) {
+        // A while behind the last transaction there is nothing left that can be done.
+        int spent = 0;
+        for (int i = 0; i < 500 && spent < 12 && due.wrong() == 0; i++) {
             step();
-            if (i % 7 == 0 || i > 390) compareAll();
+            if (i % 7 == 0 || spent > 8) compareAll();
+            if (m.now.txns.size() == 60 && m.call("many", 15) == 0) spent++;
         }
         if (due.wrong() > 0) System.out.println("run " + run + ":\n" + told);
     }
@@ -70,6 +75,15 @@ final class ModelTest {
         return below(30) == 0 ? below(m.now.rows + 2) - 1 : m.now.rows == 0 ? 0 : below(m.now.rows);
     }
 
+    /** A row that one that is open ends now, if there is one. */
+    private int heldRow() {
+        for (int i = 0; i < 20 && m.now.rows > 0; i++) {
+            int row = below(m.now.rows);
+            if (!m.now.versions(v -> v.row == row && m.now.stateOf(v.ender) == 0).isEmpty()) return row;
+        }
+        return row();
+    }
+
     private int key() {
         return below(60) == 0 ? below(102) - 1 : below(keys);
     }
@@ -91,10 +105,10 @@ final class ModelTest {
         else if (what < 50) call("insert", txn(), key(), value(), size());
         else if (what < 75) change();
         else if (what < 79) call("delete", txn(), row());
-        else if (what < 82) call("await", txn(), row());
-        else if (what < 86) call("prune", below(20) == 0 ? below(8) - 1 : below(6));
-        else if (what < 89) call("vacuum");
-        else if (what < 95) call("look", txn(), key());
+        else if (what < 79 + waits) call(below(8) == 0 ? "ring" : "await", txn(), heldRow());
+        else if (below(4) == 0) call("prune", below(20) == 0 ? below(8) - 1 : below(6));
+        else if (below(5) == 0) call("vacuum");
+        else if (below(2) == 0) call("look", txn(), key());
         else rare();
     }
 

@@ -16,6 +16,7 @@ final class TextTest {
         faultsOfOrder();
         faultsOfRows();
         faultsOfActs();
+        loadsOneBehindTheOther();
         due.end();
     }
 
@@ -177,6 +178,8 @@ final class TextTest {
         fault("begin begin;", 2, 6);
         fault("begin", 2, 5);
         fault("commit;", 2, 6);
+        fault("begin;commit 2;;", 2, 15);
+        fault("begin;commit 2;commit2", 7, 15);
     }
 
     private static void faultsOfNumbers() {
@@ -232,5 +235,26 @@ final class TextTest {
         fault("abort 1;", 7, 0);
         fault("begin;".repeat(60), 7, 354);
         due.is("59 begin", Due.loaded("begin;".repeat(59)).many(4), 61);
+    }
+
+    /** No text leaves anything behind that the next one could stumble over. */
+    private static void loadsOneBehindTheOther() {
+        RowPruner x = new RowPruner();
+        String good = "units 40;batch 2;age 1;row 1 2 3;begin;";
+        String[] bad = {"begin", "row", "row 1 1 1", "row 100", "units 40;units", "vacuum;row", "commit 9;", "begin;begin x", "@"};
+        for (String text : bad) {
+            due.refused("load of " + text, x, Due.load(x, text), 9);
+            due.good("a good text behind " + text, x, Due.load(x, good), 1);
+            due.is("fault(0)", x.fault(0), 0);
+            due.is("fault(1)", x.fault(1), NONE);
+            due.is("the next one", x.many(4), 3);
+            due.is("BATCH", x.many(1), 2);
+        }
+        Due.feed(x, "begin;begin;begin;be");
+        due.good("a text ends where it is told to", x, x.load(6), 0);
+        due.is("the next one", x.many(4), 3);
+        Due.feed(x, "begin;begin;begin;be");
+        due.refused("a word that is cut", x, x.load(8), 9);
+        due.is("fault(1)", x.fault(1), 6);
     }
 }
