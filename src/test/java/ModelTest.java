@@ -43,6 +43,7 @@ final class ModelTest {
         int spent = 0;
         for (int i = 0; i < 500 && spent < 12 && due.wrong() == 0; i++) {
             step();
+            for (int k = below(4); k > 0; k--) odd();
             if (i % 7 == 0 || spent > 8) compareAll();
             if (m.now.txns.size() == 60 && m.call("many", 15) == 0) spent++;
         }
@@ -110,6 +111,17 @@ final class ModelTest {
         else if (below(5) == 0) call("vacuum");
         else if (below(2) == 0) call("look", txn(), key());
         else rare();
+    }
+
+    /** Any call with any numbers, the ends of the ints among them. */
+    private void odd() {
+        String[] arity = {"holder best vacuum", "load many counts versions commit abort prune without blocks holds gains most",
+            "page entry txn knows event delete await look found set ring reads", "slot version sees trail", "insert", "update"};
+        int[] ends = {Integer.MIN_VALUE, -1000, -1, 0, 1, 2, 5, 6, 7, 60, 61, 100, 1000, Integer.MAX_VALUE};
+        int[] a = new int[below(arity.length)];
+        for (int i = 0; i < a.length; i++) a[i] = ends[below(ends.length)];
+        String[] names = arity[a.length].split(" ");
+        call(names[below(names.length)], a);
     }
 
     private void change() {
