@@ -1,6 +1,7 @@
 /** What the project's tests share: each call is held against the answer that is due. */
 final class Due {
     private final String test;
+    private String about = "";
     private int asked;
     private int wrong;
 
@@ -8,12 +9,17 @@ final class Due {
         this.test = test;
     }
 
+    /** What the calls that come now are about: it stands ahead of what is told of them. */
+    void about(String what) {
+        about = what.isEmpty() ? "" : what + ": ";
+    }
+
     void is(String call, long got, long want) {
         asked++;
         if (got != want) {
             wrong++;
             if (wrong <= 40) {
-                System.out.println(test + ": " + call + " answered " + got + ", due is " + want);
+                System.out.println(test + ": " + about + call + " answered " + got + ", due is " + want);
             }
         }
     }
