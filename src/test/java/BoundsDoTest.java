@@ -425,6 +425,16 @@ final class BoundsDoTest {
         on.good("the first that has PLACE", Cases.then(run, x -> x.update(2, 1, 2, 1, 17)), x -> x.sees(2, 1, 0), 2);
     }
 
+    /** So it is if its own has PLACE by pruning alone, though a page ahead has PLACE without. */
+    private static void promise22ItsOwnPrunedPageAheadOfTheFirst() {
+        Cases.Run run = Cases.text("units 32;row 1 1 10;row 2 2 20;row 3 3 20;row 4 4 10;begin;delete 2 1;delete 2 3;commit 2;prune 0;begin;");
+        on.good("FREE in page 0", run, x -> x.page(0, 1), 22);
+        on.good("FREE in page 1", run, x -> x.page(1, 1), 2);
+        on.good("LIGHT in page 1", run, x -> x.update(3, 2, 3, 1, 12), 1);
+        on.good("PAGE", Cases.then(run, x -> x.update(3, 2, 3, 1, 12)), x -> x.sees(3, 2, 0), 1);
+        on.good("13: page 0", Cases.then(run, x -> x.update(3, 2, 3, 1, 13)), x -> x.sees(3, 2, 0), 0);
+    }
+
     private static void promise22NumbersAheadOfAllElse() {
         on.refused("1, 2", HELD, x -> x.update(9, 9, 100, 1, 1), 1);
         on.refused("1, 4", ENDED, x -> x.update(2, 0, 1, 1000, 1), 1);

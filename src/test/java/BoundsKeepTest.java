@@ -75,6 +75,23 @@ final class BoundsKeepTest {
         on.tells("its MAKER is OPEN", Cases.text("row 1 1 1;begin;update 2 0 1 1 1;"), x -> x.prune(0), 0);
     }
 
+    private static void promise25ALightOneInTheFirstSlotAndInTheLast() {
+        String first = "row 1 1 1;row 2 2 2;begin;delete 2 0;commit 2;vacuum;begin;update 3 1 2 3 3;abort 3;";
+        on.good("LIGHT in slot 0", Cases.text(first), x -> x.version(0, 0, 8), 1);
+        on.good("it goes", Cases.text(first), x -> x.prune(0), 1);
+        on.good("UNUSED", Cases.text(first + "prune 0;"), x -> x.slot(0, 0, 0), 0);
+        String last = "row 1 1 1;".repeat(9) + "begin;update 2 0 1 1 1;abort 2;";
+        on.good("LIGHT in slot 9", Cases.text(last), x -> x.version(0, 9, 8), 1);
+        on.good("it goes", Cases.text(last), x -> x.prune(0), 1);
+    }
+
+    private static void promise25TheFirstSlotAndTheLast() {
+        Cases.Run run = Cases.text("row 1 1 1;".repeat(10) + "begin;delete 2 0;delete 2 9;commit 2;");
+        on.good("two", run, x -> x.prune(0), 2);
+        on.good("a STUB", Cases.then(run, x -> x.prune(0)), x -> x.slot(0, 0, 0), 3);
+        on.good("a STUB", Cases.then(run, x -> x.prune(0)), x -> x.slot(0, 9, 0), 3);
+    }
+
     private static void promise25OneThatIsNotLightIsAStubOfItsOwn() {
         Cases.Run run = Cases.text("row 1 1 1;begin;update 2 0 2 2 2;update 2 0 3 3 3;commit 2;");
         on.good("two", run, x -> x.prune(0), 2);
@@ -154,6 +171,10 @@ final class BoundsKeepTest {
         on.good("those ahead stay", Cases.text(rows + "delete 2 0;delete 2 2;commit 2;vacuum;"), x -> x.page(0, 0), 4);
         on.good("UNUSED", Cases.text(rows + "delete 2 0;delete 2 2;commit 2;vacuum;"), x -> x.page(0, 3), 2);
         on.good("all", Cases.text(rows + "delete 2 0;delete 2 1;delete 2 2;delete 2 3;commit 2;vacuum;"), x -> x.page(0, 0), 0);
+        String ten = "row 1 1 1;".repeat(10) + "begin;";
+        on.good("the tenth", Cases.text(ten + "delete 2 9;commit 2;vacuum;"), x -> x.page(0, 0), 9);
+        on.good("the ninth and the tenth", Cases.text(ten + "delete 2 8;delete 2 9;commit 2;vacuum;"), x -> x.page(0, 0), 8);
+        on.good("the ninth alone", Cases.text(ten + "delete 2 8;commit 2;vacuum;"), x -> x.page(0, 0), 10);
         on.good("a TURNED one is no UNUSED one", Cases.text("row 1 1 1;begin;update 2 0 1 1 1;commit 2;vacuum;"), x -> x.page(0, 0), 2);
     }
 
@@ -527,6 +548,8 @@ final class BoundsKeepTest {
         on.good("none that is deleted", Cases.text("row 1 1 1;begin;delete 2 0;commit 2;repack;"), x -> x.many(7), 0);
         on.good("its ENDER is GONE", Cases.text("row 1 1 1;begin;delete 2 0;abort 2;repack;"), x -> x.many(7), 1);
         on.good("no ENDER then", Cases.text("row 1 1 1;begin;delete 2 0;abort 2;repack;"), x -> x.version(0, 0, 5), NONE);
+        on.good("no NEXT then", Cases.text("row 1 1 1;begin;update 2 0 1 2 1;abort 2;repack;"), x -> x.version(0, 0, 6), NONE);
+        on.good("no NEXT then", Cases.text("row 1 1 1;begin;update 2 0 1 2 1;abort 2;repack;"), x -> x.version(0, 0, 7), NONE);
         on.good("the newest", Cases.text("row 1 1 1;begin;update 2 0 1 2 1;commit 2;repack;"), x -> x.version(0, 0, 2), 2);
         on.good("not that of one that is GONE", Cases.text("row 1 1 1;begin;update 2 0 1 2 1;abort 2;repack;"), x -> x.version(0, 0, 2), 1);
         on.good("one of each row", Cases.text("row 1 1 1;begin;update 2 0 1 2 1;abort 2;repack;"), x -> x.many(7), 1);
@@ -714,6 +737,30 @@ final class BoundsKeepTest {
         due.good("begin()", x, x.begin(), 3);
         due.good("insert()", x, x.insert(3, 2, 2, 2), 0);
         due.good("KEY", x, x.sees(3, 0, 2), 2);
+    }
+
+    /** Which VERSION was made ahead of which is taken back, too, and goes on from there. */
+    private static void promise32WhenTheyWereMade() {
+        // Row 1 is in slot 1; the next one goes to slot 0, that was UNUSED, and one more behind both.
+        Cases.Run run = Cases.text("row 9 1 1;row 1 1 1;begin;delete 2 0;commit 2;vacuum;begin;update 3 1 1 2 1;");
+        Cases.Run[] taken = {Cases.then(run, RowPruner::mark, x -> x.load(0), RowPruner::back),
+            Cases.then(run, RowPruner::mark, x -> x.commit(3), RowPruner::vacuum, RowPruner::repack, RowPruner::back)};
+        for (Cases.Run back : taken) {
+            int[] slots = {1, 0, 2};
+            Cases.Run more = Cases.then(back, x -> x.update(3, 1, 1, 3, 1));
+            for (int i = 0; i < 3; i++) {
+                int which = i;
+                if (i < 2) on.good("trail(1, " + i + ", 1)", back, x -> x.trail(1, which, 1), slots[i]);
+                on.good("with one more, trail(1, " + i + ", 1)", more, x -> x.trail(1, which, 1), slots[i]);
+            }
+        }
+    }
+
+    private static void promise32WhatWasFound() {
+        Cases.Run run = Cases.then(FOUND, RowPruner::mark, x -> x.insert(2, 7, 70, 1), x -> x.insert(2, 7, 71, 1), x -> x.look(2, 7));
+        on.good("another ROW", run, x -> x.found(0, 0), 2);
+        on.sameButTape("back()", FOUND, Cases.then(run, RowPruner::back));
+        on.sameButTape("back() from load()", FOUND, Cases.then(FOUND, RowPruner::mark, x -> x.load(0), RowPruner::back));
     }
 
     private static void promise32AMarkIsNotChangedByWhatComesBehindIt() {

@@ -23,7 +23,7 @@ final class BoundsTellTest {
     }
 
     private static void promise6FromTheFirstWhatToTheLast() {
-        int[] many = {40, 2, 1, 6, 9, 4, 5, 4, 1, 1, 2, 1, 1, 1, 1, 3, 1};
+        int[] many = {40, 2, 1, 6, 9, 4, 5, 5, 1, 1, 2, 2, 1, 1, 1, 3, 1};
         for (int i = 0; i < many.length; i++) {
             int what = i;
             on.tells("many(" + i + ")", States.BUSY, x -> x.many(what), many[i]);
@@ -285,7 +285,7 @@ final class BoundsTellTest {
         on.refused("page(0, -1)", States.BUSY, x -> x.page(0, -1), 1);
         on.refused("page(5, 5)", States.BUSY, x -> x.page(5, 5), 1);
         for (int w : FAR) on.refused("page(0, " + w + ")", States.BUSY, x -> x.page(0, w), 1);
-        int[] page = {6, 15, 6, 0, 0};
+        int[] page = {7, 11, 6, 0, 0};
         for (int i = 0; i < 5; i++) {
             int what = i;
             on.tells("page(0, " + i + ")", States.BUSY, x -> x.page(0, what), page[i]);
@@ -579,6 +579,17 @@ final class BoundsTellTest {
         on.good("till their STUBS are UNUSED", Cases.then(run, RowPruner::vacuum), x -> x.many(6), 3);
     }
 
+    private static void promise11ANewOneIsNotKilled() {
+        String killed = "begin;insert 2 5 1 1;abort 2;begin;look 3 5;";
+        Cases.Run ahead = Cases.text(killed + "insert 3 4 1 1;");
+        on.good("right ahead of a KILLED one", ahead, x -> x.entry(0, 3), 0);
+        on.good("the KILLED one", ahead, x -> x.entry(1, 3), 1);
+        Cases.Run behind = Cases.text(killed + "insert 3 5 1 1;");
+        on.good("the KILLED one", behind, x -> x.entry(0, 3), 1);
+        on.good("right behind it", behind, x -> x.entry(1, 3), 0);
+        on.good("where a KILLED one was", Cases.text(killed + "vacuum;insert 3 5 1 1;"), x -> x.entry(0, 3), 0);
+    }
+
     // ---- promise 12: txn
 
     private static void promise12TransactionsFrom1ToTheLast() {
@@ -630,6 +641,19 @@ final class BoundsTellTest {
         on.tells("2", Cases.text("begin;"), x -> x.txn(2, 1), 2);
         on.tells("3", Cases.text("begin;commit 2;begin;"), x -> x.txn(3, 1), 3);
         on.tells("the least of several", Cases.text("begin;begin;commit 2;begin;begin;"), x -> x.txn(5, 1), 3);
+    }
+
+    private static void promise12LowOfThe60th() {
+        Cases.Run full = Cases.text("begin;".repeat(59));
+        on.good("LOW", full, x -> x.txn(60, 1), 2);
+        on.good("HORIZON", full, x -> x.many(5), 2);
+        on.good("LOW of itself", x -> {
+            for (int t = 2; t < 60; t++) {
+                x.begin();
+                x.commit(t);
+            }
+            x.begin();
+        }, x -> x.txn(60, 1), 60);
     }
 
     private static void promise12HowManyItNoted() {

@@ -642,6 +642,12 @@ final class BoundsTextTest {
         fault("mark;", 2, 0);
     }
 
+    private static void promise5WordsWithAnotherLetter() {
+        for (String word : WORDS) {
+            for (int i = 0; i < word.length(); i++) fault(word.substring(0, i) + 'z' + word.substring(i + 1) + " 1;", 2, 0);
+        }
+    }
+
     /** Of each line one number less, one more, a word in a number's stead; at the text's end, too. */
     private static void promise5HowManyNumbersALineHas() {
         for (int k = 0; k < WORDS.length; k++) {
@@ -776,6 +782,12 @@ final class BoundsTextTest {
         fault("units 31;units 31;!", 4, 6);
         fault("commit 1;x;", 7, 0);
         fault("begin;commit 3;begin begin", 7, 6);
+        // What stands behind an ACT is at fault, not that ACT, though it could not be done again.
+        fault("begin;commit 2;7", 2, 15);
+        fault("begin;commit 2;;", 2, 15);
+        fault("begin;commit 2;x", 2, 15);
+        fault("begin;commit 2;!", 1, 15);
+        fault("begin;commit 2;commit !", 1, 22);
     }
 
     private static void promise5OfOneTokenTheLeastKind() {

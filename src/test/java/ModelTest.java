@@ -1,9 +1,19 @@
-/** Long runs of calls, the same ones to the program and to the second reading of the document. */
+import java.util.ArrayList;
+import java.util.List;
+
+/**
+ * Long runs of calls, the same ones to the program and to the second reading of the document. No object is
+ * used for more than 512 calls: where more is asked, the run is made again on another new one.
+ */
 final class ModelTest {
+    private static final int CALLS = 512;
 
     private long seed;
     private final Due due = new Due("ModelTest");
     private RowPruner x;
+    private int used;
+    /** The calls that may have changed something, as they were made. */
+    private final List<Cases.Run> made = new ArrayList<>();
     private Model m;
     private StringBuilder told;
     // What kind of run it is.
@@ -13,7 +23,7 @@ final class ModelTest {
     private int waits;
 
     public static void main(String[] args) {
-        int runs = args.length > 0 ? Integer.parseInt(args[0]) : 120;
+        int runs = args.length > 0 ? Integer.parseInt(args[0]) : 240;
         ModelTest t = new ModelTest();
         for (int run = 0; run < runs && t.due.wrong() == 0; run++) t.walk(run);
         for (int run = 0; run < runs * 40 && t.due.wrong() == 0; run++) t.texts(run);
@@ -29,6 +39,8 @@ final class ModelTest {
         seed = run * 7919L + 17;
         for (int i = 0; i < 5; i++) below(2);
         x = new RowPruner();
+        used = 0;
+        made.clear();
         m = new Model();
         told = new StringBuilder();
         keys = new int[] {1, 2, 3, 6, 12}[below(5)];
@@ -39,20 +51,35 @@ final class ModelTest {
 
     private void walk(int run) {
         start(run);
-        // A while behind the last transaction there is nothing left that can be done.
-        int spent = 0;
-        for (int i = 0; i < 500 && spent < 12 && due.wrong() == 0; i++) {
+        int calls = new int[] {25, 80, 200, 300, 400}[below(5)];
+        int often = 1 + calls / 4;
+        int asked = 0;
+        while (made.size() < calls && due.wrong() == 0) {
             step();
             for (int k = below(4); k > 0; k--) odd();
-            if (i % 7 == 0 || spent > 8) compareAll();
-            if (m.now.txns.size() == 60 && m.call("many", 15) == 0) spent++;
+            if (made.size() < asked + often && made.size() < calls) continue;
+            asked = made.size();
+            compareAll();
         }
         if (due.wrong() > 0) System.out.println("run " + run + ":\n" + told);
     }
 
+    /** Makes the run again on a new object if the one that there is can't be asked so much more. */
+    private void makeRoomFor(int calls) {
+        if (used + calls <= CALLS) {
+            used += calls;
+            return;
+        }
+        x = new RowPruner();
+        for (Cases.Run one : made) one.on(x);
+        used = made.size() + calls;
+    }
+
     private int call(String name, int... a) {
+        makeRoomFor(2);
         int want = m.call(name, a);
         int got = real(name, a);
+        made.add(y -> real(y, name, a));
         StringBuilder call = new StringBuilder(name).append('(');
         for (int i = 0; i < a.length; i++) call.append(i == 0 ? "" : ", ").append(a[i]);
         call.append(')');
@@ -168,10 +195,14 @@ final class ModelTest {
                 int at = from + i;
                 five[i / 4] = five[i / 4] << 8 | (at < text.length() ? text.charAt(at) : 0);
             }
-            due.is("feed", x.feed(five[0], five[1], five[2], five[3], five[4]), m.feed(five));
+            makeRoomFor(1);
+            int[] a = five.clone();
+            made.add(y -> y.feed(a[0], a[1], a[2], a[3], a[4]));
+            due.is("feed", x.feed(a[0], a[1], a[2], a[3], a[4]), m.feed(a));
         }
         told.append(text).append('\n');
         call("load", text.length() + (below(40) == 0 ? below(40) - 20 : 0));
+        makeRoomFor(2);
         due.is("fault(0)", x.fault(0), m.fault(0));
         due.is("fault(1)", x.fault(1), m.fault(1));
         if (m.status == 1) call("load", 0);
@@ -217,6 +248,7 @@ final class ModelTest {
     }
 
     private void ask(String name, int... a) {
+        makeRoomFor(2);
         int want = m.call(name, a);
         int got = real(name, a);
         if (got != want || x.status() != m.status) {
@@ -259,6 +291,10 @@ final class ModelTest {
     }
 
     private int real(String name, int... a) {
+        return real(x, name, a);
+    }
+
+    private static int real(RowPruner x, String name, int... a) {
         switch (name) {
             case "load": return x.load(a[0]);
             case "many": return x.many(a[0]);

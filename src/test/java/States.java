@@ -1,14 +1,14 @@
 /** Where the boundary cases begin: runs of calls, and texts, that more than one of them uses. */
 final class States {
     /**
-     * Something of everything, in page 0: slot 0 is TURNED to slot 5; the FROZEN row 1 in slot 1 is ended by
-     * 5, which is OPEN, and 7 WAITS for it; slot 2 was used again, by row 5 of 4, which is GONE, and its
+     * Something of everything, in page 0: slot 0 is TURNED to slot 5; the FROZEN row 1 in slot 1 is updated to
+     * slot 6 by 5, which is OPEN, and 7 WAITS for it; slot 2 was used again, by row 5 of 4, which is GONE, and its
      * ENTRY is KILLED; row 3 in slot 3 is FROZEN and DYING; slot 4 is a STUB. 8 has FOUND two.
      */
     static final Cases.Run BUSY_UNMARKED = Cases.then(
         Cases.text("units 40;batch 2;age 1;row 1 10 9;row 1 11 9;row 2 12 4;row 3 13 5;row 2 14 3;begin;update 2 0 1 20 5;delete 2 2;"
             + "commit 2;vacuum;begin;delete 3 4;commit 3;prune 0;begin;begin;insert 4 3 50 6;abort 4;begin;begin;look 5 3;delete 6 3;commit 6;"),
-        x -> x.delete(5, 1), x -> x.await(7, 1), RowPruner::begin, x -> x.look(8, 1));
+        x -> x.update(5, 1, 1, 21, 4), x -> x.await(7, 1), RowPruner::begin, x -> x.look(8, 1));
     static final Cases.Run BUSY = Cases.then(BUSY_UNMARKED, RowPruner::mark);
 
     /** Thirty rows with KEY 1, each updated to KEY 2 by 2, which is OPEN: 60 ENTRIES, all 60 SLOTS are FULL. */
