@@ -3,16 +3,6 @@ final class BoundsDoTest {
     private static final Cases on = new Cases(BoundsDoTest.class, 18, 24);
     private static final Due due = on.due;
     private static final int NONE = RowPruner.NONE;
-    /** No such transactions where 4 is the latest one. */
-    private static final int[] NO_TXNS = {Integer.MIN_VALUE, -1, 0, 5, 61, Integer.MAX_VALUE};
-    /** No such rows where there are two. */
-    private static final int[] NO_ROWS = {Integer.MIN_VALUE, -1, 2, 40, Integer.MAX_VALUE};
-    /** Row 0 is ended by 2, row 1 by 3, both OPEN; 4 is free. */
-    private static final Cases.Run HELD = Cases.text("row 1 1 1;row 2 2 2;begin;begin;begin;delete 2 0;delete 3 1;");
-    /** As HELD; 4 WAITS for 2. */
-    private static final Cases.Run WAITING = Cases.then(HELD, x -> x.await(4, 0));
-    /** As HELD, but 3 is DONE and 2 is GONE. */
-    private static final Cases.Run ENDED = Cases.then(HELD, x -> x.commit(3), x -> x.abort(2));
     /** Pages of 32 UNITS with one row of 20 each; page 0 has a DEAD one of 1 besides; 3 is OPEN. */
     private static final Cases.Run NO_PLACE = Cases.text("units 32;" + "row 1 1 20;".repeat(6) + "row 2 1 1;begin;delete 2 6;commit 2;begin;");
 
@@ -47,7 +37,7 @@ final class BoundsDoTest {
         on.good("none", Cases.text("begin;"), x -> x.txn(2, 2), 0);
         on.good("one", Cases.text("begin;begin;"), x -> x.txn(3, 2), 1);
         on.good("neither DONE nor GONE", Cases.text("begin;begin;commit 2;abort 3;begin;"), x -> x.txn(4, 2), 0);
-        on.good("those that WAIT, too", Cases.then(WAITING, RowPruner::begin), x -> x.txn(5, 2), 3);
+        on.good("those that WAIT, too", Cases.then(States.WAITING, RowPruner::begin), x -> x.txn(5, 2), 3);
     }
 
     private static void promise18ItIsOpenAndWaitsForNone() {
@@ -59,20 +49,20 @@ final class BoundsDoTest {
     // ---- promise 19: commit
 
     private static void promise19NoSuchOne() {
-        for (int t : NO_TXNS) on.refused("commit(" + t + ")", HELD, x -> x.commit(t), 2);
+        on.refusedEach("commit(..)", States.HELD, (x, t) -> x.commit(t), 2, States.noTxns());
         on.refused("commit(61)", Cases.text("begin;".repeat(59)), x -> x.commit(61), 2);
         on.good("commit(60)", Cases.text("begin;".repeat(59)), x -> x.commit(60), 2);
     }
 
     private static void promise19NotOpen() {
-        on.refused("commit(1)", HELD, x -> x.commit(1), 4);
-        on.refused("a DONE one", ENDED, x -> x.commit(3), 4);
-        on.refused("a GONE one", ENDED, x -> x.commit(2), 4);
+        on.refused("commit(1)", States.HELD, x -> x.commit(1), 4);
+        on.refused("a DONE one", States.ENDED, x -> x.commit(3), 4);
+        on.refused("a GONE one", States.ENDED, x -> x.commit(2), 4);
     }
 
     private static void promise19OneThatWaits() {
-        on.refused("commit(4)", WAITING, x -> x.commit(4), 11);
-        on.good("it waits no more", Cases.then(WAITING, x -> x.abort(2)), x -> x.commit(4), 2);
+        on.refused("commit(4)", States.WAITING, x -> x.commit(4), 11);
+        on.good("it waits no more", Cases.then(States.WAITING, x -> x.abort(2)), x -> x.commit(4), 2);
     }
 
     private static void promise19TheHorizonThen() {
@@ -86,7 +76,7 @@ final class BoundsDoTest {
     }
 
     private static void promise19ItIsDoneAndTold() {
-        Cases.Run run = Cases.then(HELD, x -> x.commit(2));
+        Cases.Run run = Cases.then(States.HELD, x -> x.commit(2));
         on.good("DONE", run, x -> x.txn(2, 0), 1);
         on.good("kind", run, x -> x.event(0, 0), 6);
         on.good("number", run, x -> x.event(0, 1), 2);
@@ -94,7 +84,7 @@ final class BoundsDoTest {
     }
 
     private static void promise19AllThatWaitForItDoNoMore() {
-        Cases.Run run = Cases.then(HELD, RowPruner::begin, x -> x.await(4, 0), x -> x.await(5, 0), RowPruner::begin, x -> x.await(6, 1));
+        Cases.Run run = Cases.then(States.HELD, RowPruner::begin, x -> x.await(4, 0), x -> x.await(5, 0), RowPruner::begin, x -> x.await(6, 1));
         on.good("three WAIT", run, x -> x.many(16), 3);
         Cases.Run done = Cases.then(run, x -> x.commit(2));
         on.good("one WAITS still", done, x -> x.many(16), 1);
@@ -105,21 +95,21 @@ final class BoundsDoTest {
     // ---- promise 20: abort
 
     private static void promise20NoSuchOne() {
-        for (int t : NO_TXNS) on.refused("abort(" + t + ")", HELD, x -> x.abort(t), 2);
+        on.refusedEach("abort(..)", States.HELD, (x, t) -> x.abort(t), 2, States.noTxns());
         on.refused("abort(61)", Cases.text("begin;".repeat(59)), x -> x.abort(61), 2);
         on.good("abort(60)", Cases.text("begin;".repeat(59)), x -> x.abort(60), 2);
     }
 
     private static void promise20NotOpen() {
-        on.refused("abort(1)", HELD, x -> x.abort(1), 4);
-        on.refused("a DONE one", ENDED, x -> x.abort(3), 4);
-        on.refused("a GONE one", ENDED, x -> x.abort(2), 4);
+        on.refused("abort(1)", States.HELD, x -> x.abort(1), 4);
+        on.refused("a DONE one", States.ENDED, x -> x.abort(3), 4);
+        on.refused("a GONE one", States.ENDED, x -> x.abort(2), 4);
     }
 
     private static void promise20OneThatWaits() {
-        on.good("abort(4)", WAITING, x -> x.abort(4), 2);
-        on.good("it waits no more", Cases.then(WAITING, x -> x.abort(4)), x -> x.many(16), 0);
-        on.good("2 blocks none", Cases.then(WAITING, x -> x.abort(4)), x -> x.blocks(2), 0);
+        on.good("abort(4)", States.WAITING, x -> x.abort(4), 2);
+        on.good("it waits no more", Cases.then(States.WAITING, x -> x.abort(4)), x -> x.many(16), 0);
+        on.good("2 blocks none", Cases.then(States.WAITING, x -> x.abort(4)), x -> x.blocks(2), 0);
     }
 
     private static void promise20TheHorizonThen() {
@@ -129,7 +119,7 @@ final class BoundsDoTest {
     }
 
     private static void promise20ItIsGoneAndTold() {
-        Cases.Run run = Cases.then(HELD, x -> x.abort(2));
+        Cases.Run run = Cases.then(States.HELD, x -> x.abort(2));
         on.good("GONE", run, x -> x.txn(2, 0), 2);
         on.good("kind", run, x -> x.event(0, 0), 7);
         on.good("number", run, x -> x.event(0, 1), 2);
@@ -137,7 +127,7 @@ final class BoundsDoTest {
     }
 
     private static void promise20AllThatWaitForItDoNoMore() {
-        Cases.Run run = Cases.then(HELD, RowPruner::begin, x -> x.await(4, 0), x -> x.await(5, 0), RowPruner::begin, x -> x.await(6, 1));
+        Cases.Run run = Cases.then(States.HELD, RowPruner::begin, x -> x.await(4, 0), x -> x.await(5, 0), RowPruner::begin, x -> x.await(6, 1));
         Cases.Run gone = Cases.then(run, x -> x.abort(2));
         on.good("one WAITS still", gone, x -> x.many(16), 1);
         on.good("4 can end the row", gone, x -> x.delete(4, 0), 1);
@@ -177,7 +167,7 @@ final class BoundsDoTest {
     }
 
     private static void promise21NoSuchOne() {
-        for (int t : NO_TXNS) on.refused("insert(" + t + ", ..)", HELD, x -> x.insert(t, 1, 1, 1), 2);
+        on.refusedEach("insert(..)", States.HELD, (x, t) -> x.insert(t, 1, 1, 1), 2, States.noTxns());
     }
 
     private static void promise21FortyRows() {
@@ -198,14 +188,14 @@ final class BoundsDoTest {
     }
 
     private static void promise21NotOpen() {
-        on.refused("insert(1, ..)", ENDED, x -> x.insert(1, 1, 1, 1), 4);
-        on.refused("a GONE one", ENDED, x -> x.insert(2, 1, 1, 1), 4);
-        on.refused("a DONE one", ENDED, x -> x.insert(3, 1, 1, 1), 4);
+        on.refused("insert(1, ..)", States.ENDED, x -> x.insert(1, 1, 1, 1), 4);
+        on.refused("a GONE one", States.ENDED, x -> x.insert(2, 1, 1, 1), 4);
+        on.refused("a DONE one", States.ENDED, x -> x.insert(3, 1, 1, 1), 4);
     }
 
     private static void promise21OneThatWaits() {
-        on.refused("insert(4, ..)", WAITING, x -> x.insert(4, 1, 1, 1), 11);
-        on.good("it waits no more", Cases.then(WAITING, x -> x.commit(2)), x -> x.insert(4, 1, 1, 1), 2);
+        on.refused("insert(4, ..)", States.WAITING, x -> x.insert(4, 1, 1, 1), 11);
+        on.good("it waits no more", Cases.then(States.WAITING, x -> x.commit(2)), x -> x.insert(4, 1, 1, 1), 2);
     }
 
     private static void promise21AsMuchAsIsFree() {
@@ -240,22 +230,18 @@ final class BoundsDoTest {
 
     private static void promise21ItIsNotLightAndHasAnEntry() {
         Cases.Run run = Cases.text("begin;insert 2 7 8 9;");
-        int[] version = {0, 7, 8, 9, 2, NONE, NONE, NONE, 0, 0, 0, 0};
-        for (int i = 0; i < 12; i++) {
-            int what = i;
-            on.good("version(0, 0, " + i + ")", run, x -> x.version(0, 0, what), version[i]);
-        }
+        on.tellsEach("version()", run, (x, w) -> x.version(0, 0, w), 0, 7, 8, 9, 2, NONE, NONE, NONE, 0, 0, 0, 0);
         on.good("an ENTRY", run, x -> x.entry(0, 0), 7);
         on.good("not KILLED", run, x -> x.entry(0, 3), 0);
         on.refused("no EVENT", run, x -> x.event(0, 0), 5);
     }
 
     private static void promise21NumbersAheadOfAllElse() {
-        on.refused("1, 2", HELD, x -> x.insert(9, 100, 1, 1), 1);
+        on.refused("1, 2", States.HELD, x -> x.insert(9, 100, 1, 1), 1);
         on.refused("1, 3", States.FULL_INDEX, x -> x.insert(2, 1, 1000, 1), 1);
-        on.refused("1, 4", ENDED, x -> x.insert(2, 1, 1, 0), 1);
+        on.refused("1, 4", States.ENDED, x -> x.insert(2, 1, 1, 0), 1);
         on.refused("1, 5", NO_PLACE, x -> x.insert(3, 100, 1, 20), 1);
-        on.refused("1, 11", WAITING, x -> x.insert(4, 1, 1, 21), 1);
+        on.refused("1, 11", States.WAITING, x -> x.insert(4, 1, 1, 21), 1);
     }
 
     private static void promise21NoSuchOneAheadOfTooMany() {
@@ -320,41 +306,38 @@ final class BoundsDoTest {
     }
 
     private static void promise22NoSuchOneNoSuchRow() {
-        for (int t : NO_TXNS) on.refused("update(" + t + ", 0, ..)", HELD, x -> x.update(t, 0, 1, 1, 1), 2);
-        for (int r : NO_ROWS) on.refused("update(4, " + r + ", ..)", HELD, x -> x.update(4, r, 1, 1, 1), 2);
+        on.refusedEach("update(.., 0, ..)", States.HELD, (x, t) -> x.update(t, 0, 1, 1, 1), 2, States.noTxns());
+        on.refusedEach("update(4, .., ..)", States.HELD, (x, r) -> x.update(4, r, 1, 1, 1), 2, States.noRows());
     }
 
     private static void promise22NotOpen() {
-        for (int t = 1; t <= 3; t++) {
-            int txn = t;
-            on.refused("update(" + t + ", ..)", ENDED, x -> x.update(txn, 0, 1, 1, 1), 4);
-        }
+        on.refusedEach("update()", States.ENDED, (x, t) -> x.update(t, 0, 1, 1, 1), 4, 1, 2, 3);
     }
 
     private static void promise22OneThatWaits() {
-        on.refused("update(4, ..)", Cases.then(WAITING, x -> x.insert(2, 1, 1, 1)), x -> x.update(4, 1, 1, 1, 1), 11);
+        on.refused("update(4, ..)", Cases.then(States.WAITING, x -> x.insert(2, 1, 1, 1)), x -> x.update(4, 1, 1, 1, 1), 11);
     }
 
     private static void promise22Unseen() {
-        on.refused("its own, deleted", HELD, x -> x.update(2, 0, 1, 1, 1), 6);
+        on.refused("its own, deleted", States.HELD, x -> x.update(2, 0, 1, 1, 1), 6);
         on.refused("another one's", Cases.text("begin;begin;insert 2 1 1 1;"), x -> x.update(3, 0, 1, 1, 1), 6);
         on.refused("another one's that it noted", Cases.text("begin;begin;insert 2 1 1 1;commit 2;"), x -> x.update(3, 0, 1, 1, 1), 6);
         on.refused("none is left", Cases.text("begin;insert 2 1 1 1;abort 2;vacuum;begin;"), x -> x.update(3, 0, 1, 1, 1), 6);
     }
 
     private static void promise22AnotherOneThatIsOpenIsTheEnder() {
-        on.refused("update(4, 0, ..)", HELD, x -> x.update(4, 0, 1, 1, 1), 7);
+        on.refused("update(4, 0, ..)", States.HELD, x -> x.update(4, 0, 1, 1, 1), 7);
         on.refused("one of a greater number", Cases.text("row 1 1 1;begin;begin;delete 3 0;"), x -> x.update(2, 0, 1, 1, 1), 7);
     }
 
     private static void promise22AnotherOneThatIsDoneIs() {
-        on.refused("update(4, 1, ..)", ENDED, x -> x.update(4, 1, 1, 1, 1), 8);
+        on.refused("update(4, 1, ..)", States.ENDED, x -> x.update(4, 1, 1, 1, 1), 8);
         on.refused("one of a greater number", Cases.text("row 1 1 1;begin;begin;delete 3 0;commit 3;"), x -> x.update(2, 0, 1, 1, 1), 8);
     }
 
     private static void promise22AnotherOneThatIsGoneIsNot() {
-        Cases.Run run = Cases.then(ENDED, x -> x.update(4, 0, 1, 9, 1));
-        on.good("update(4, 0, ..)", ENDED, x -> x.update(4, 0, 1, 9, 1), 1);
+        Cases.Run run = Cases.then(States.ENDED, x -> x.update(4, 0, 1, 9, 1));
+        on.good("update(4, 0, ..)", States.ENDED, x -> x.update(4, 0, 1, 9, 1), 1);
         on.good("ENDER", run, x -> x.version(0, 0, 5), 4);
         on.good("NEXT", run, x -> x.version(0, 0, 7), 2);
         on.good("CHAIN", run, x -> x.slot(0, 0, 3), 2);
@@ -436,24 +419,24 @@ final class BoundsDoTest {
     }
 
     private static void promise22NumbersAheadOfAllElse() {
-        on.refused("1, 2", HELD, x -> x.update(9, 9, 100, 1, 1), 1);
-        on.refused("1, 4", ENDED, x -> x.update(2, 0, 1, 1000, 1), 1);
-        on.refused("1, 11", WAITING, x -> x.update(4, 1, 1, 1, 0), 1);
-        on.refused("1, 6", HELD, x -> x.update(2, 0, -1, 1, 1), 1);
-        on.refused("1, 7", HELD, x -> x.update(4, 0, 1, -1, 1), 1);
-        on.refused("1, 8", ENDED, x -> x.update(4, 1, 1, 1, 21), 1);
+        on.refused("1, 2", States.HELD, x -> x.update(9, 9, 100, 1, 1), 1);
+        on.refused("1, 4", States.ENDED, x -> x.update(2, 0, 1, 1000, 1), 1);
+        on.refused("1, 11", States.WAITING, x -> x.update(4, 1, 1, 1, 0), 1);
+        on.refused("1, 6", States.HELD, x -> x.update(2, 0, -1, 1, 1), 1);
+        on.refused("1, 7", States.HELD, x -> x.update(4, 0, 1, -1, 1), 1);
+        on.refused("1, 8", States.ENDED, x -> x.update(4, 1, 1, 1, 21), 1);
         on.refused("1, 5", NO_PLACE, x -> x.update(3, 0, 100, 1, 20), 1);
     }
 
     private static void promise22NoneAheadOfWhatTheTransactionIs() {
-        on.refused("2, 4", ENDED, x -> x.update(2, 2, 1, 1, 1), 2);
-        on.refused("2, 11", WAITING, x -> x.update(4, 2, 1, 1, 1), 2);
+        on.refused("2, 4", States.ENDED, x -> x.update(2, 2, 1, 1, 1), 2);
+        on.refused("2, 11", States.WAITING, x -> x.update(4, 2, 1, 1, 1), 2);
         on.refused("2, 5", NO_PLACE, x -> x.update(3, 7, 1, 1, 20), 2);
         on.refused("2, 3", States.FULL_INDEX, x -> x.update(4, 0, 1, 1, 1), 2);
     }
 
     private static void promise22NotOpenAheadOfTheRow() {
-        on.refused("4, 6", ENDED, x -> x.update(2, 0, 1, 1, 1), 4);
+        on.refused("4, 6", States.ENDED, x -> x.update(2, 0, 1, 1, 1), 4);
         on.refused("4, 7", Cases.text("row 1 1 1;begin;begin;commit 2;delete 3 0;"), x -> x.update(2, 0, 1, 1, 1), 4);
         on.refused("4, 8", Cases.text("row 1 1 1;begin;begin;commit 2;delete 3 0;commit 3;"), x -> x.update(2, 0, 1, 1, 1), 4);
         on.refused("4, 5", NO_PLACE, x -> x.update(2, 0, 1, 1, 20), 4);
@@ -461,9 +444,9 @@ final class BoundsDoTest {
     }
 
     private static void promise22WaitingAheadOfTheRow() {
-        on.refused("11, 6", Cases.then(WAITING, x -> x.insert(2, 1, 1, 1)), x -> x.update(4, 2, 1, 1, 1), 11);
-        on.refused("11, 7", WAITING, x -> x.update(4, 1, 1, 1, 1), 11);
-        on.refused("11, 8", Cases.then(WAITING, x -> x.commit(3)), x -> x.update(4, 1, 1, 1, 1), 11);
+        on.refused("11, 6", Cases.then(States.WAITING, x -> x.insert(2, 1, 1, 1)), x -> x.update(4, 2, 1, 1, 1), 11);
+        on.refused("11, 7", States.WAITING, x -> x.update(4, 1, 1, 1, 1), 11);
+        on.refused("11, 8", Cases.then(States.WAITING, x -> x.commit(3)), x -> x.update(4, 1, 1, 1, 1), 11);
         Cases.Run noPlace = Cases.then(NO_PLACE, RowPruner::begin, x -> x.delete(3, 0), x -> x.await(4, 0));
         on.refused("11, 5", noPlace, x -> x.update(4, 1, 1, 1, 20), 11);
     }
@@ -485,15 +468,12 @@ final class BoundsDoTest {
     // ---- promise 23: delete
 
     private static void promise23NoSuchOneNoSuchRow() {
-        for (int t : NO_TXNS) on.refused("delete(" + t + ", 0)", HELD, x -> x.delete(t, 0), 2);
-        for (int r : NO_ROWS) on.refused("delete(4, " + r + ")", HELD, x -> x.delete(4, r), 2);
+        on.refusedEach("delete(.., 0)", States.HELD, (x, t) -> x.delete(t, 0), 2, States.noTxns());
+        on.refusedEach("delete(4, ..)", States.HELD, (x, r) -> x.delete(4, r), 2, States.noRows());
     }
 
     private static void promise23NotOpen() {
-        for (int t = 1; t <= 3; t++) {
-            int txn = t;
-            on.refused("delete(" + t + ", 0)", ENDED, x -> x.delete(txn, 0), 4);
-        }
+        on.refusedEach("delete()", States.ENDED, (x, t) -> x.delete(t, 0), 4, 1, 2, 3);
     }
 
     private static void promise23OneThatWaits() {
@@ -503,26 +483,26 @@ final class BoundsDoTest {
     }
 
     private static void promise23Unseen() {
-        on.refused("its own, deleted", HELD, x -> x.delete(2, 0), 6);
+        on.refused("its own, deleted", States.HELD, x -> x.delete(2, 0), 6);
         on.refused("another one's", Cases.text("begin;begin;insert 2 1 1 1;"), x -> x.delete(3, 0), 6);
         on.refused("none is left", Cases.text("begin;insert 2 1 1 1;abort 2;vacuum;begin;"), x -> x.delete(3, 0), 6);
     }
 
     private static void promise23AnotherOneIsTheEnder() {
-        on.refused("OPEN", HELD, x -> x.delete(4, 0), 7);
-        on.refused("DONE", ENDED, x -> x.delete(4, 1), 8);
-        on.good("GONE", ENDED, x -> x.delete(4, 0), 1);
+        on.refused("OPEN", States.HELD, x -> x.delete(4, 0), 7);
+        on.refused("DONE", States.ENDED, x -> x.delete(4, 1), 8);
+        on.good("GONE", States.ENDED, x -> x.delete(4, 0), 1);
     }
 
     private static void promise23WhatComesFirst() {
-        on.refused("2, 4", ENDED, x -> x.delete(2, 2), 2);
-        on.refused("2, 11", WAITING, x -> x.delete(4, 2), 2);
-        on.refused("4, 6", ENDED, x -> x.delete(2, 0), 4);
+        on.refused("2, 4", States.ENDED, x -> x.delete(2, 2), 2);
+        on.refused("2, 11", States.WAITING, x -> x.delete(4, 2), 2);
+        on.refused("4, 6", States.ENDED, x -> x.delete(2, 0), 4);
         on.refused("4, 7", Cases.text("row 1 1 1;begin;begin;commit 2;delete 3 0;"), x -> x.delete(2, 0), 4);
         on.refused("4, 8", Cases.text("row 1 1 1;begin;begin;commit 2;delete 3 0;commit 3;"), x -> x.delete(2, 0), 4);
-        on.refused("11, 6", Cases.then(WAITING, x -> x.insert(2, 1, 1, 1)), x -> x.delete(4, 2), 11);
-        on.refused("11, 7", WAITING, x -> x.delete(4, 0), 11);
-        on.refused("11, 8", Cases.then(WAITING, x -> x.commit(3)), x -> x.delete(4, 1), 11);
+        on.refused("11, 6", Cases.then(States.WAITING, x -> x.insert(2, 1, 1, 1)), x -> x.delete(4, 2), 11);
+        on.refused("11, 7", States.WAITING, x -> x.delete(4, 0), 11);
+        on.refused("11, 8", Cases.then(States.WAITING, x -> x.commit(3)), x -> x.delete(4, 1), 11);
     }
 
     private static void promise23EnderAndNoNext() {
@@ -543,53 +523,46 @@ final class BoundsDoTest {
 
     // ---- promise 24: await
 
-    /** Rows 0 to 3, ended by 2 to 5, all OPEN; 6 has done nothing. */
-    private static final Cases.Run FOUR = Cases.text("row 1 1 1;row 2 2 2;row 3 3 3;row 4 4 4;begin;begin;begin;begin;begin;"
-        + "delete 2 0;delete 3 1;delete 4 2;delete 5 3;");
-
     private static void promise24NoSuchOneNoSuchRow() {
-        for (int t : NO_TXNS) on.refused("await(" + t + ", 0)", HELD, x -> x.await(t, 0), 2);
-        for (int r : NO_ROWS) on.refused("await(4, " + r + ")", HELD, x -> x.await(4, r), 2);
+        on.refusedEach("await(.., 0)", States.HELD, (x, t) -> x.await(t, 0), 2, States.noTxns());
+        on.refusedEach("await(4, ..)", States.HELD, (x, r) -> x.await(4, r), 2, States.noRows());
     }
 
     private static void promise24NotOpen() {
-        for (int t = 1; t <= 3; t++) {
-            int txn = t;
-            on.refused("await(" + t + ", 0)", ENDED, x -> x.await(txn, 0), 4);
-        }
+        on.refusedEach("await()", States.ENDED, (x, t) -> x.await(t, 0), 4, 1, 2, 3);
     }
 
     private static void promise24OneThatWaits() {
-        on.refused("for another one", WAITING, x -> x.await(4, 1), 11);
-        on.refused("for the same one", WAITING, x -> x.await(4, 0), 11);
+        on.refused("for another one", States.WAITING, x -> x.await(4, 1), 11);
+        on.refused("for the same one", States.WAITING, x -> x.await(4, 0), 11);
     }
 
     private static void promise24Unseen() {
-        on.refused("its own, deleted", HELD, x -> x.await(2, 0), 6);
+        on.refused("its own, deleted", States.HELD, x -> x.await(2, 0), 6);
         on.refused("another one's", Cases.text("begin;begin;insert 2 1 1 1;"), x -> x.await(3, 0), 6);
     }
 
     private static void promise24NoneThatIsOpen() {
         on.refused("no ENDER", Cases.text("row 1 1 1;begin;"), x -> x.await(2, 0), 5);
-        on.refused("GONE", ENDED, x -> x.await(4, 0), 5);
-        on.refused("DONE", ENDED, x -> x.await(4, 1), 5);
+        on.refused("GONE", States.ENDED, x -> x.await(4, 0), 5);
+        on.refused("DONE", States.ENDED, x -> x.await(4, 1), 5);
         on.refused("its own, without ENDER", Cases.text("begin;insert 2 1 1 1;"), x -> x.await(2, 0), 5);
     }
 
     private static void promise24WhichThatIs() {
-        on.good("2", HELD, x -> x.await(4, 0), 2);
-        on.good("3", HELD, x -> x.await(4, 1), 3);
-        on.good("one of a lesser number for a greater one", HELD, x -> x.await(2, 1), 3);
-        on.good("several for one", WAITING, x -> x.await(3, 0), 2);
+        on.good("2", States.HELD, x -> x.await(4, 0), 2);
+        on.good("3", States.HELD, x -> x.await(4, 1), 3);
+        on.good("one of a lesser number for a greater one", States.HELD, x -> x.await(2, 1), 3);
+        on.good("several for one", States.WAITING, x -> x.await(3, 0), 2);
     }
 
     private static void promise24ARingOfTwo() {
-        on.refused("await(3, 0)", Cases.then(HELD, x -> x.await(2, 1)), x -> x.await(3, 0), 12);
-        on.good("the first may", HELD, x -> x.await(3, 0), 2);
+        on.refused("await(3, 0)", Cases.then(States.HELD, x -> x.await(2, 1)), x -> x.await(3, 0), 12);
+        on.good("the first may", States.HELD, x -> x.await(3, 0), 2);
     }
 
     private static void promise24ARingOfFour() {
-        Cases.Run run = Cases.then(FOUR, x -> x.await(2, 1), x -> x.await(3, 2), x -> x.await(4, 3));
+        Cases.Run run = Cases.then(States.FOUR, x -> x.await(2, 1), x -> x.await(3, 2), x -> x.await(4, 3));
         on.refused("5 for 2", run, x -> x.await(5, 0), 12);
         on.refused("5 for 3", run, x -> x.await(5, 1), 12);
         on.refused("5 for 4", run, x -> x.await(5, 2), 12);
@@ -598,20 +571,20 @@ final class BoundsDoTest {
     }
 
     private static void promise24WhatComesFirst() {
-        on.refused("2, 4", ENDED, x -> x.await(2, 2), 2);
-        on.refused("2, 11", WAITING, x -> x.await(4, 2), 2);
-        on.refused("4, 6", ENDED, x -> x.await(2, 0), 4);
-        on.refused("4, 5", ENDED, x -> x.await(1, 1), 4);
-        on.refused("11, 6", Cases.then(FOUR, x -> x.await(2, 1)), x -> x.await(2, 0), 11);
+        on.refused("2, 4", States.ENDED, x -> x.await(2, 2), 2);
+        on.refused("2, 11", States.WAITING, x -> x.await(4, 2), 2);
+        on.refused("4, 6", States.ENDED, x -> x.await(2, 0), 4);
+        on.refused("4, 5", States.ENDED, x -> x.await(1, 1), 4);
+        on.refused("11, 6", Cases.then(States.FOUR, x -> x.await(2, 1)), x -> x.await(2, 0), 11);
         on.refused("11, 5", Cases.then(Cases.text("row 1 1 1;row 2 2 2;begin;begin;delete 2 0;"), x -> x.await(3, 0)), x -> x.await(3, 1), 11);
-        Cases.Run nearly = Cases.then(FOUR, x -> x.await(6, 2), x -> x.await(2, 1), x -> x.await(3, 2));
+        Cases.Run nearly = Cases.then(States.FOUR, x -> x.await(6, 2), x -> x.await(2, 1), x -> x.await(3, 2));
         on.refused("11, 12", nearly, x -> x.await(3, 0), 11);
         on.refused("6, 5: unseen, so that there is no ENDER", Cases.text("begin;begin;insert 2 1 1 1;"), x -> x.await(3, 0), 6);
     }
 
     /** Till that is DONE or GONE, or itself GONE; whatever others do. */
     private static void promise24HowLong() {
-        Cases.Run run = Cases.then(FOUR, x -> x.await(6, 0), x -> x.await(3, 0));
+        Cases.Run run = Cases.then(States.FOUR, x -> x.await(6, 0), x -> x.await(3, 0));
         on.good("others end", Cases.then(run, x -> x.commit(4), x -> x.abort(5), RowPruner::vacuum), x -> x.txn(6, 3), 2);
         on.good("that is DONE", Cases.then(run, x -> x.commit(2)), x -> x.many(16), 0);
         on.good("that is GONE", Cases.then(run, x -> x.abort(2)), x -> x.many(16), 0);
@@ -619,13 +592,13 @@ final class BoundsDoTest {
     }
 
     private static void promise24WhoWaitsCannotDoAnythingElse() {
-        on.refused("commit()", WAITING, x -> x.commit(4), 11);
-        on.refused("insert()", WAITING, x -> x.insert(4, 1, 1, 1), 11);
-        on.refused("update()", WAITING, x -> x.update(4, 1, 1, 1, 1), 11);
-        on.refused("delete()", WAITING, x -> x.delete(4, 1), 11);
-        on.refused("await()", WAITING, x -> x.await(4, 1), 11);
-        on.refused("look()", WAITING, x -> x.look(4, 1), 11);
-        on.refused("ring()", WAITING, x -> x.ring(4, 1), 11);
-        due.is("but be GONE", Cases.after(WAITING).abort(4), 2);
+        on.refused("commit()", States.WAITING, x -> x.commit(4), 11);
+        on.refused("insert()", States.WAITING, x -> x.insert(4, 1, 1, 1), 11);
+        on.refused("update()", States.WAITING, x -> x.update(4, 1, 1, 1, 1), 11);
+        on.refused("delete()", States.WAITING, x -> x.delete(4, 1), 11);
+        on.refused("await()", States.WAITING, x -> x.await(4, 1), 11);
+        on.refused("look()", States.WAITING, x -> x.look(4, 1), 11);
+        on.refused("ring()", States.WAITING, x -> x.ring(4, 1), 11);
+        due.is("but be GONE", Cases.after(States.WAITING).abort(4), 2);
     }
 }

@@ -243,6 +243,17 @@ final class BoundsKeepTest {
         }
     }
 
+    /** The PAGES are PRUNED first, then come the PASSES, and what is FROZEN comes last. */
+    private static void promise26WhatComesFirst() {
+        RowPruner x = Due.loaded("units 32;batch 1;age 0;row 1 1 20;row 2 1 20;row 3 1 20;begin;delete 2 0;delete 2 2;commit 2;vacuum;");
+        int[][] events = {{5, 1}, {4, 1}, {4, 1}, {0, 2}, {1, 20}, {0, 0}, {1, 0}, {6, 2}};
+        for (int i = 0; i < events.length; i++) {
+            due.good("kind of event " + i, x, x.event(i, 0), events[i][0]);
+            due.good("number of event " + i, x, x.event(i, 1), events[i][1]);
+        }
+        due.refused("no more", x, x.event(8, 0), 5);
+    }
+
     private static void clear(String what, String text, int want) {
         on.good(what, Cases.text(text), x -> x.page(0, 4), want);
     }
@@ -320,10 +331,7 @@ final class BoundsKeepTest {
 
     private static void promise27NotOpen() {
         Cases.Run run = Cases.text("row 1 1 1;begin;begin;commit 2;abort 3;");
-        for (int t = 1; t <= 3; t++) {
-            int txn = t;
-            on.refused("look(" + t + ", 1)", run, x -> x.look(txn, 1), 4);
-        }
+        on.refusedEach("look(.., 1)", run, (x, t) -> x.look(t, 1), 4, 1, 2, 3);
     }
 
     private static void promise27OneThatWaits() {
@@ -430,14 +438,8 @@ final class BoundsKeepTest {
     }
 
     private static void promise28FromTheFirstToTheLast() {
-        int[][] found = {{0, 12, 0, 2, 1}, {1, 11, 0, 1, 0}};
-        for (int i = 0; i < 2; i++) {
-            for (int w = 0; w < 5; w++) {
-                int which = i;
-                int what = w;
-                on.tells("found(" + i + ", " + w + ")", FOUND, x -> x.found(which, what), found[i][w]);
-            }
-        }
+        on.tellsEach("found(0, ..)", FOUND, (x, w) -> x.found(0, w), 0, 12, 0, 2, 1);
+        on.tellsEach("found(1, ..)", FOUND, (x, w) -> x.found(1, w), 1, 11, 0, 1, 0);
         on.refused("found(2, 0)", FOUND, x -> x.found(2, 0), 5);
         on.refused("found(most, 0)", FOUND, x -> x.found(Integer.MAX_VALUE, 0), 5);
     }
@@ -452,7 +454,7 @@ final class BoundsKeepTest {
     private static void promise28WhatFrom0To4() {
         on.refused("found(0, -1)", FOUND, x -> x.found(0, -1), 1);
         on.refused("found(0, 5)", FOUND, x -> x.found(0, 5), 1);
-        for (int w : FAR) on.refused("found(0, " + w + ")", FOUND, x -> x.found(0, w), 1);
+        on.refusedEach("found(0, ..)", FOUND, (x, w) -> x.found(0, w), 1, FAR);
     }
 
     private static void promise28NumbersAheadOfWhatIsNotThere() {
@@ -481,14 +483,8 @@ final class BoundsKeepTest {
 
     private static void promise28AsItWasThen() {
         Cases.Run run = Cases.then(FOUND, x -> x.update(2, 0, 1, 99, 1), x -> x.delete(2, 1), x -> x.commit(2), RowPruner::vacuum, RowPruner::repack);
-        int[][] found = {{0, 12, 0, 2, 1}, {1, 11, 0, 1, 0}};
-        for (int i = 0; i < 2; i++) {
-            for (int w = 0; w < 5; w++) {
-                int which = i;
-                int what = w;
-                on.good("found(" + i + ", " + w + ")", run, x -> x.found(which, what), found[i][w]);
-            }
-        }
+        on.tellsEach("found(0, ..)", run, (x, w) -> x.found(0, w), 0, 12, 0, 2, 1);
+        on.tellsEach("found(1, ..)", run, (x, w) -> x.found(1, w), 1, 11, 0, 1, 0);
         on.good("a refused load()", x -> {
             run.on(x);
             Due.load(x, "begin;look 2 1;x");
@@ -497,11 +493,7 @@ final class BoundsKeepTest {
 
     private static void promise28InTheOrderOfTheEntries() {
         Cases.Run run = Cases.text("units 32;row 1 0 20;row 1 1 10;row 1 2 20;row 1 3 2;begin;look 2 1;");
-        int[] rows = {0, 1, 3, 2};
-        for (int i = 0; i < 4; i++) {
-            int which = i;
-            on.good("found(" + i + ", 0)", run, x -> x.found(which, 0), rows[i]);
-        }
+        on.tellsEach("found(.., 0)", run, (x, w) -> x.found(w, 0), 0, 1, 3, 2);
     }
 
     // ---- promise 29: repack
@@ -568,20 +560,12 @@ final class BoundsKeepTest {
 
     private static void promise29TheFirstPageWithPlace() {
         Cases.Run run = Cases.text("units 32;row 1 1 20;row 2 1 20;row 3 1 12;row 4 1 12;repack;");
-        int[] pages = {0, 1, 0, 1};
-        for (int r = 0; r < 4; r++) {
-            int row = r;
-            on.good("row " + r, run, x -> x.trail(row, 0, 0), pages[r]);
-        }
+        on.tellsEach("PAGE of the row", run, (x, w) -> x.trail(w, 0, 0), 0, 1, 0, 1);
     }
 
     private static void promise29WhatStaysOfAVersion() {
         Cases.Run run = Cases.text("age 0;row 7 1 4;begin;update 2 0 7 8 9;commit 2;vacuum;repack;");
-        int[] version = {0, 7, 8, 9, 2, NONE, NONE, NONE, 0, 1, 0, 0};
-        for (int i = 0; i < 12; i++) {
-            int what = i;
-            on.good("version(0, 0, " + i + ")", run, x -> x.version(0, 0, what), version[i]);
-        }
+        on.tellsEach("version()", run, (x, w) -> x.version(0, 0, w), 0, 7, 8, 9, 2, NONE, NONE, NONE, 0, 1, 0, 0);
     }
 
     private static void promise29AllElseIsNoMore() {
@@ -600,10 +584,7 @@ final class BoundsKeepTest {
         Cases.Run run = Cases.text("row 1 1 1;begin;delete 2 0;commit 2;repack;");
         on.good("EVENT", run, x -> x.event(0, 0), 6);
         on.refused("no more", run, x -> x.event(1, 0), 5);
-        for (int i = 0; i < 8; i++) {
-            int what = i;
-            on.good("counts(" + i + ")", run, x -> x.counts(what), 0);
-        }
+        on.tellsEach("counts()", run, RowPruner::counts, 0, 0, 0, 0, 0, 0, 0, 0);
     }
 
     private static void promise29Twice() {
@@ -746,13 +727,9 @@ final class BoundsKeepTest {
         Cases.Run[] taken = {Cases.then(run, RowPruner::mark, x -> x.load(0), RowPruner::back),
             Cases.then(run, RowPruner::mark, x -> x.commit(3), RowPruner::vacuum, RowPruner::repack, RowPruner::back)};
         for (Cases.Run back : taken) {
-            int[] slots = {1, 0, 2};
             Cases.Run more = Cases.then(back, x -> x.update(3, 1, 1, 3, 1));
-            for (int i = 0; i < 3; i++) {
-                int which = i;
-                if (i < 2) on.good("trail(1, " + i + ", 1)", back, x -> x.trail(1, which, 1), slots[i]);
-                on.good("with one more, trail(1, " + i + ", 1)", more, x -> x.trail(1, which, 1), slots[i]);
-            }
+            on.tellsEach("trail(1, .., 1)", back, (x, i) -> x.trail(1, i, 1), 1, 0);
+            on.tellsEach("trail(1, .., 1) of one more", more, (x, i) -> x.trail(1, i, 1), 1, 0, 2);
         }
     }
 

@@ -1,16 +1,6 @@
 /** The boundary cases of promises 33 to 41, each in a case of its own: what would be, and that asking changes nothing. */
 final class BoundsPaperTest {
     private static final Cases on = new Cases(BoundsPaperTest.class, 33, 41);
-    /** No such transactions where 4 is the latest one. */
-    private static final int[] NO_TXNS = {Integer.MIN_VALUE, -1, 0, 5, 61, Integer.MAX_VALUE};
-    /** No such rows where there are two. */
-    private static final int[] NO_ROWS = {Integer.MIN_VALUE, -1, 2, 40, Integer.MAX_VALUE};
-    /** Row 0 is ended by 2, row 1 by 3, both OPEN; 4 is free. */
-    private static final Cases.Run HELD = Cases.text("row 1 1 1;row 2 2 2;begin;begin;begin;delete 2 0;delete 3 1;");
-    /** As HELD; 4 WAITS for 2. */
-    private static final Cases.Run WAITING = Cases.then(HELD, x -> x.await(4, 0));
-    /** As HELD, but 3 is DONE and 2 is GONE. */
-    private static final Cases.Run ENDED = Cases.then(HELD, x -> x.commit(3), x -> x.abort(2));
 
     public static void main(String[] args) {
         on.runAll();
@@ -19,16 +9,13 @@ final class BoundsPaperTest {
     // ---- promise 33: without
 
     private static void promise33NoSuchOneOrNotOpen() {
-        for (int t : NO_TXNS) on.refused("without(" + t + ")", ENDED, x -> x.without(t), 2);
-        for (int t = 1; t <= 3; t++) {
-            int txn = t;
-            on.refused("without(" + t + ")", ENDED, x -> x.without(txn), 4);
-        }
+        on.refusedEach("without(..)", States.ENDED, (x, t) -> x.without(t), 2, States.noTxns());
+        on.refusedEach("without()", States.ENDED, RowPruner::without, 4, 1, 2, 3);
     }
 
     private static void promise33TheLastThatIsOpen() {
         on.tells("the next number", Cases.text("begin;"), x -> x.without(2), 3);
-        on.tells("the next number", ENDED, x -> x.without(4), 5);
+        on.tells("the next number", States.ENDED, x -> x.without(4), 5);
         on.tells("61", x -> {
             for (int t = 2; t <= 60; t++) x.begin();
             for (int t = 2; t < 60; t++) x.commit(t);
@@ -36,67 +23,63 @@ final class BoundsPaperTest {
     }
 
     private static void promise33OthersNotedIt() {
-        on.tells("LOW of those that noted it stays", HELD, x -> x.without(2), 2);
-        on.tells("2 holds it", HELD, x -> x.without(4), 2);
+        on.tells("LOW of those that noted it stays", States.HELD, x -> x.without(2), 2);
+        on.tells("2 holds it", States.HELD, x -> x.without(4), 2);
         on.tells("none noted it", Cases.text("begin;begin;commit 2;begin;"), x -> x.without(3), 3);
     }
 
     private static void promise33OneThatWaits() {
-        on.tells("without(4)", WAITING, x -> x.without(4), 2);
+        on.tells("without(4)", States.WAITING, x -> x.without(4), 2);
     }
 
     private static void promise33AsCommitWouldTell() {
         for (int t = 2; t <= 4; t++) {
             int txn = t;
-            on.tells("without(" + t + ")", HELD, x -> x.without(txn), Cases.after(HELD).commit(txn));
+            on.tells("without(" + t + ")", States.HELD, x -> x.without(txn), Cases.after(States.HELD).commit(txn));
         }
     }
 
     // ---- promise 34: ring
 
     private static void promise34NoSuchOneNoSuchRow() {
-        for (int t : NO_TXNS) on.refused("ring(" + t + ", 0)", HELD, x -> x.ring(t, 0), 2);
-        for (int r : NO_ROWS) on.refused("ring(4, " + r + ")", HELD, x -> x.ring(4, r), 2);
+        on.refusedEach("ring(.., 0)", States.HELD, (x, t) -> x.ring(t, 0), 2, States.noTxns());
+        on.refusedEach("ring(4, ..)", States.HELD, (x, r) -> x.ring(4, r), 2, States.noRows());
     }
 
     private static void promise34NotOpen() {
-        for (int t = 1; t <= 3; t++) {
-            int txn = t;
-            on.refused("ring(" + t + ", 0)", ENDED, x -> x.ring(txn, 0), 4);
-        }
+        on.refusedEach("ring()", States.ENDED, (x, t) -> x.ring(t, 0), 4, 1, 2, 3);
     }
 
     private static void promise34OneThatWaits() {
-        on.refused("ring(4, 1)", WAITING, x -> x.ring(4, 1), 11);
+        on.refused("ring(4, 1)", States.WAITING, x -> x.ring(4, 1), 11);
     }
 
     private static void promise34Unseen() {
-        on.refused("its own, deleted", HELD, x -> x.ring(2, 0), 6);
+        on.refused("its own, deleted", States.HELD, x -> x.ring(2, 0), 6);
     }
 
     private static void promise34NoneThatIsOpen() {
         on.refused("no ENDER", Cases.text("row 1 1 1;begin;"), x -> x.ring(2, 0), 5);
-        on.refused("GONE", ENDED, x -> x.ring(4, 0), 5);
-        on.refused("DONE", ENDED, x -> x.ring(4, 1), 5);
+        on.refused("GONE", States.ENDED, x -> x.ring(4, 0), 5);
+        on.refused("DONE", States.ENDED, x -> x.ring(4, 1), 5);
     }
 
     private static void promise34WhatComesFirst() {
-        on.refused("2, 4", ENDED, x -> x.ring(2, 2), 2);
-        on.refused("2, 11", WAITING, x -> x.ring(4, 2), 2);
-        on.refused("4, 6", ENDED, x -> x.ring(2, 0), 4);
-        on.refused("4, 5", ENDED, x -> x.ring(1, 1), 4);
-        on.refused("11, 6", Cases.then(HELD, x -> x.await(2, 1)), x -> x.ring(2, 0), 11);
+        on.refused("2, 4", States.ENDED, x -> x.ring(2, 2), 2);
+        on.refused("2, 11", States.WAITING, x -> x.ring(4, 2), 2);
+        on.refused("4, 6", States.ENDED, x -> x.ring(2, 0), 4);
+        on.refused("4, 5", States.ENDED, x -> x.ring(1, 1), 4);
+        on.refused("11, 6", Cases.then(States.HELD, x -> x.await(2, 1)), x -> x.ring(2, 0), 11);
         on.refused("11, 5", Cases.then(Cases.text("row 1 1 1;row 2 2 2;begin;begin;delete 2 0;"), x -> x.await(3, 0)), x -> x.ring(3, 1), 11);
     }
 
     private static void promise34NoRing() {
-        on.tells("none WAITS", HELD, x -> x.ring(4, 0), 0);
-        on.tells("one WAITS, but for another one", WAITING, x -> x.ring(3, 0), 0);
+        on.tells("none WAITS", States.HELD, x -> x.ring(4, 0), 0);
+        on.tells("one WAITS, but for another one", States.WAITING, x -> x.ring(3, 0), 0);
     }
 
     /** Rows 0 to 3, ended by 2 to 5, all OPEN; 2 WAITS for 3, 3 for 4, 4 for 5. */
-    private static final Cases.Run ROW = Cases.then(Cases.text("row 1 1 1;row 2 2 2;row 3 3 3;row 4 4 4;begin;begin;begin;begin;begin;"
-        + "delete 2 0;delete 3 1;delete 4 2;delete 5 3;"), x -> x.await(2, 1), x -> x.await(3, 2), x -> x.await(4, 3));
+    private static final Cases.Run ROW = Cases.then(States.FOUR, x -> x.await(2, 1), x -> x.await(3, 2), x -> x.await(4, 3));
 
     private static void promise34RingsOfTwoToFour() {
         on.tells("5 for 4", ROW, x -> x.ring(5, 2), 2);
@@ -120,17 +103,14 @@ final class BoundsPaperTest {
     // ---- promise 35: blocks
 
     private static void promise35NoSuchOneOrNotOpen() {
-        for (int t : NO_TXNS) on.refused("blocks(" + t + ")", ENDED, x -> x.blocks(t), 2);
-        for (int t = 1; t <= 3; t++) {
-            int txn = t;
-            on.refused("blocks(" + t + ")", ENDED, x -> x.blocks(txn), 4);
-        }
+        on.refusedEach("blocks(..)", States.ENDED, (x, t) -> x.blocks(t), 2, States.noTxns());
+        on.refusedEach("blocks()", States.ENDED, RowPruner::blocks, 4, 1, 2, 3);
     }
 
     private static void promise35NoneAndOne() {
-        on.tells("none", HELD, x -> x.blocks(2), 0);
-        on.tells("one", WAITING, x -> x.blocks(2), 1);
-        on.tells("none WAITS for one that WAITS", WAITING, x -> x.blocks(4), 0);
+        on.tells("none", States.HELD, x -> x.blocks(2), 0);
+        on.tells("one", States.WAITING, x -> x.blocks(2), 1);
+        on.tells("none WAITS for one that WAITS", States.WAITING, x -> x.blocks(4), 0);
     }
 
     private static void promise35ByOthersThatWaitToo() {
@@ -184,11 +164,8 @@ final class BoundsPaperTest {
     // ---- promise 37: holds
 
     private static void promise37NoSuchOneOrNotOpen() {
-        for (int t : NO_TXNS) on.refused("holds(" + t + ")", ENDED, x -> x.holds(t), 2);
-        for (int t = 1; t <= 3; t++) {
-            int txn = t;
-            on.refused("holds(" + t + ")", ENDED, x -> x.holds(txn), 4);
-        }
+        on.refusedEach("holds(..)", States.ENDED, (x, t) -> x.holds(t), 2, States.noTxns());
+        on.refusedEach("holds()", States.ENDED, RowPruner::holds, 4, 1, 2, 3);
     }
 
     private static void promise37None() {
@@ -216,7 +193,7 @@ final class BoundsPaperTest {
     }
 
     private static void promise37OneThatWaits() {
-        on.tells("holds(4)", Cases.then(WAITING, x -> x.commit(3)), x -> x.holds(4), 0);
+        on.tells("holds(4)", Cases.then(States.WAITING, x -> x.commit(3)), x -> x.holds(4), 0);
         Cases.Run run = Cases.then(Cases.text("row 1 1 7;row 2 2 8;begin;begin;delete 3 0;delete 2 1;"), x -> x.await(3, 1));
         on.tells("2 is OPEN", run, x -> x.holds(3), 0);
         on.tells("2", run, x -> x.holds(2), 0);
@@ -228,10 +205,7 @@ final class BoundsPaperTest {
     private static final String GAINS = "batch 2;age 1;row 1 1 3;row 2 2 4;row 3 3 5;row 4 4 6;begin;delete 2 0;delete 2 1;delete 2 2;update 2 3 4 5 7;";
 
     private static void gains(String what, Cases.Run run, int... want) {
-        for (int i = 0; i < 6; i++) {
-            int which = i;
-            on.tells(what + ", gains(" + i + ")", run, x -> x.gains(which), want[i]);
-        }
+        on.tellsEach(what, run, RowPruner::gains, want);
     }
 
     private static void promise38WhatFrom0To5() {
@@ -282,6 +256,8 @@ final class BoundsPaperTest {
     private static void promise39FreeAlreadyIsNotByIt() {
         on.tells("page 1, though page 0 has more FREE", Cases.text("units 32;row 1 1 20;row 2 1 20;begin;delete 2 0;commit 2;prune 0;begin;delete 3 1;commit 3;"),
             RowPruner::best, 1);
+        on.tells("page 1, though page 0 would have more FREE", Cases.text("units 32;row 1 1 20;row 2 1 12;row 3 1 20;row 4 1 5;begin;delete 2 0;delete 2 1;"
+            + "commit 2;prune 0;begin;insert 3 5 1 1;delete 3 4;delete 3 3;commit 3;"), RowPruner::best, 1);
     }
 
     // ---- promise 40: reads
@@ -294,20 +270,17 @@ final class BoundsPaperTest {
     }
 
     private static void promise40NoSuchOneOrNotOpen() {
-        for (int t : NO_TXNS) on.refused("reads(" + t + ", 1)", ENDED, x -> x.reads(t, 1), 2);
-        for (int t = 1; t <= 3; t++) {
-            int txn = t;
-            on.refused("reads(" + t + ", 1)", ENDED, x -> x.reads(txn, 1), 4);
-        }
+        on.refusedEach("reads(.., 1)", States.ENDED, (x, t) -> x.reads(t, 1), 2, States.noTxns());
+        on.refusedEach("reads()", States.ENDED, (x, t) -> x.reads(t, 1), 4, 1, 2, 3);
     }
 
     private static void promise40WhatComesFirst() {
-        on.refused("1, 2", ENDED, x -> x.reads(9, 100), 1);
-        on.refused("1, 4", ENDED, x -> x.reads(2, -1), 1);
+        on.refused("1, 2", States.ENDED, x -> x.reads(9, 100), 1);
+        on.refused("1, 4", States.ENDED, x -> x.reads(2, -1), 1);
     }
 
     private static void promise40OneThatWaits() {
-        on.tells("reads(4, 2)", WAITING, x -> x.reads(4, 2), 1);
+        on.tells("reads(4, 2)", States.WAITING, x -> x.reads(4, 2), 1);
     }
 
     private static void promise40NoneAndAll() {

@@ -19,15 +19,11 @@ final class BoundsTellTest {
 
     private static void promise6WhatAbove16() {
         on.refused("many(17)", States.BUSY, x -> x.many(17), 1);
-        for (int w : FAR) on.refused("many(" + w + ")", States.BUSY, x -> x.many(w), 1);
+        on.refusedEach("many(..)", States.BUSY, (x, w) -> x.many(w), 1, FAR);
     }
 
     private static void promise6FromTheFirstWhatToTheLast() {
-        int[] many = {40, 2, 1, 6, 9, 4, 5, 5, 1, 1, 2, 2, 1, 1, 1, 3, 1};
-        for (int i = 0; i < many.length; i++) {
-            int what = i;
-            on.tells("many(" + i + ")", States.BUSY, x -> x.many(what), many[i]);
-        }
+        on.tellsEach("many()", States.BUSY, RowPruner::many, 40, 2, 1, 6, 9, 4, 5, 5, 1, 1, 2, 2, 1, 1, 1, 3, 1);
     }
 
     private static void promise6FortyRows() {
@@ -168,15 +164,11 @@ final class BoundsTellTest {
 
     private static void promise7WhatAbove7() {
         on.refused("counts(8)", States.BUSY, x -> x.counts(8), 1);
-        for (int w : FAR) on.refused("counts(" + w + ")", States.BUSY, x -> x.counts(w), 1);
+        on.refusedEach("counts(..)", States.BUSY, (x, w) -> x.counts(w), 1, FAR);
     }
 
     private static void promise7FromTheFirstWhatToTheLast() {
-        int[] counts = {2, 3, 1, 1, 1, 3, 1, 4};
-        for (int i = 0; i < counts.length; i++) {
-            int what = i;
-            on.tells("counts(" + i + ")", States.BUSY, x -> x.counts(what), counts[i]);
-        }
+        on.tellsEach("counts()", States.BUSY, RowPruner::counts, 2, 3, 1, 1, 1, 3, 1, 4);
     }
 
     private static void promise7PruningsThatMadeNoneGo() {
@@ -267,29 +259,19 @@ final class BoundsTellTest {
     // ---- promise 8: page
 
     private static void promise8PagesBelow0() {
-        for (int w = 0; w < 5; w++) {
-            int what = w;
-            on.refused("page(-1, " + w + ")", States.BUSY, x -> x.page(-1, what), 2);
-        }
+        on.refusedEach("page(-1, ..)", States.BUSY, (x, w) -> x.page(-1, w), 2, 0, 1, 2, 3, 4);
     }
 
     private static void promise8PagesAbove5() {
-        for (int w = 0; w < 5; w++) {
-            int what = w;
-            on.refused("page(6, " + w + ")", States.BUSY, x -> x.page(6, what), 2);
-        }
-        for (int p : FAR) on.refused("page(" + p + ", 0)", States.BUSY, x -> x.page(p, 0), 2);
+        on.refusedEach("page(6, ..)", States.BUSY, (x, w) -> x.page(6, w), 2, 0, 1, 2, 3, 4);
+        on.refusedEach("page(.., 0)", States.BUSY, (x, p) -> x.page(p, 0), 2, FAR);
     }
 
     private static void promise8WhatFrom0To4() {
         on.refused("page(0, -1)", States.BUSY, x -> x.page(0, -1), 1);
         on.refused("page(5, 5)", States.BUSY, x -> x.page(5, 5), 1);
-        for (int w : FAR) on.refused("page(0, " + w + ")", States.BUSY, x -> x.page(0, w), 1);
-        int[] page = {7, 11, 6, 0, 0};
-        for (int i = 0; i < 5; i++) {
-            int what = i;
-            on.tells("page(0, " + i + ")", States.BUSY, x -> x.page(0, what), page[i]);
-        }
+        on.refusedEach("page(0, ..)", States.BUSY, (x, w) -> x.page(0, w), 1, FAR);
+        on.tellsEach("page(0, ..)", States.BUSY, (x, w) -> x.page(0, w), 7, 11, 6, 0, 0);
     }
 
     private static void promise8WhatAheadOfThePage() {
@@ -352,7 +334,7 @@ final class BoundsTellTest {
         on.refused("slot(6, 0, 0)", run, x -> x.slot(6, 0, 0), 2);
         on.tells("slot(0, 0, 0)", run, x -> x.slot(0, 0, 0), 1);
         on.tells("slot(5, 0, 0)", run, x -> x.slot(5, 0, 0), 1);
-        for (int p : FAR) on.refused("slot(" + p + ", 0, 0)", run, x -> x.slot(p, 0, 0), 2);
+        on.refusedEach("slot(.., 0, 0)", run, (x, p) -> x.slot(p, 0, 0), 2, FAR);
     }
 
     private static void promise9SlotsThatThePageHas() {
@@ -360,7 +342,7 @@ final class BoundsTellTest {
         on.refused("slot(0, 2, 0)", DYING, x -> x.slot(0, 2, 0), 2);
         on.tells("slot(0, 1, 0)", DYING, x -> x.slot(0, 1, 0), 1);
         on.refused("slot(1, 0, 0): none at first", DYING, x -> x.slot(1, 0, 0), 2);
-        for (int s : FAR) on.refused("slot(0, " + s + ", 0)", DYING, x -> x.slot(0, s, 0), 2);
+        on.refusedEach("slot(0, .., 0)", DYING, (x, s) -> x.slot(0, s, 0), 2, FAR);
         Cases.Run full = Cases.text("row 1 1 1;".repeat(11));
         on.tells("slot(0, 9, 0)", full, x -> x.slot(0, 9, 0), 1);
         on.refused("slot(0, 10, 0)", full, x -> x.slot(0, 10, 0), 2);
@@ -370,7 +352,7 @@ final class BoundsTellTest {
     private static void promise9WhatFrom0To3() {
         on.refused("slot(0, 0, -1)", DYING, x -> x.slot(0, 0, -1), 1);
         on.refused("slot(0, 0, 4)", DYING, x -> x.slot(0, 0, 4), 1);
-        for (int w : FAR) on.refused("slot(0, 0, " + w + ")", DYING, x -> x.slot(0, 0, w), 1);
+        on.refusedEach("slot(0, 0, ..)", DYING, (x, w) -> x.slot(0, 0, w), 1, FAR);
     }
 
     private static void promise9WhatAheadOfPageAndSlot() {
@@ -379,10 +361,7 @@ final class BoundsTellTest {
     }
 
     private static void told(String what, Cases.Run run, int slot, int... want) {
-        for (int i = 0; i < want.length; i++) {
-            int w = i;
-            on.tells(what + ", what " + i, run, x -> x.slot(0, slot, w), want[i]);
-        }
+        on.tellsEach(what, run, (x, w) -> x.slot(0, slot, w), want);
     }
 
     private static void promise9AFullOne() {
@@ -414,7 +393,7 @@ final class BoundsTellTest {
         told("its ENDER is DONE", Cases.text("row 1 1 1;begin;update 2 0 1 2 1;commit 2;"), 0, 1, NONE, 1, 2);
         told("NEXT is not LIGHT", Cases.text("row 1 1 1;begin;update 2 0 2 2 1;"), 0, 1, NONE, 1, 1);
         told("NEXT is in another PAGE, in the same SLOT as a LIGHT one here",
-            Cases.text("units 32;row 1 1 10;row 1 1 20;row 2 1 1;begin;update 2 2 2 1 1;update 2 0 1 1 9;"), 0, 1, NONE, 1, 1);
+            Cases.text("units 32;row 1 1 10;row 1 1 20;row 3 1 3;row 3 1 3;row 3 1 3;row 2 1 1;begin;update 2 5 2 1 1;update 2 0 1 1 9;"), 0, 1, NONE, 1, 1);
         told("deleted: no NEXT", Cases.text("row 1 1 1;begin;delete 2 0;"), 0, 1, NONE, 1, 1);
     }
 
@@ -441,14 +420,14 @@ final class BoundsTellTest {
         on.refused("version(6, 0, 0)", run, x -> x.version(6, 0, 0), 2);
         on.tells("version(5, 0, 0)", run, x -> x.version(5, 0, 0), 5);
         on.tells("version(0, 0, 0)", run, x -> x.version(0, 0, 0), 0);
-        for (int p : FAR) on.refused("version(" + p + ", 0, 0)", run, x -> x.version(p, 0, 0), 2);
+        on.refusedEach("version(.., 0, 0)", run, (x, p) -> x.version(p, 0, 0), 2, FAR);
     }
 
     private static void promise10SlotsThatThePageHas() {
         on.refused("version(0, -1, 0)", DYING, x -> x.version(0, -1, 0), 2);
         on.refused("version(0, 2, 0)", DYING, x -> x.version(0, 2, 0), 2);
         on.refused("version(5, 0, 0)", DYING, x -> x.version(5, 0, 0), 2);
-        for (int s : FAR) on.refused("version(0, " + s + ", 0)", DYING, x -> x.version(0, s, 0), 2);
+        on.refusedEach("version(0, .., 0)", DYING, (x, s) -> x.version(0, s, 0), 2, FAR);
         Cases.Run full = Cases.text("row 1 1 1;".repeat(10));
         on.tells("version(0, 9, 0)", full, x -> x.version(0, 9, 0), 9);
         on.refused("version(0, 10, 0)", full, x -> x.version(0, 10, 0), 2);
@@ -457,17 +436,9 @@ final class BoundsTellTest {
     private static void promise10WhatFrom0To11() {
         on.refused("version(0, 0, -1)", DYING, x -> x.version(0, 0, -1), 1);
         on.refused("version(0, 0, 12)", DYING, x -> x.version(0, 0, 12), 1);
-        for (int w : FAR) on.refused("version(0, 0, " + w + ")", DYING, x -> x.version(0, 0, w), 1);
-        int[] version = {0, 1, 10, 4, 1, 2, 0, 1, 0, 0, 0, 1};
-        for (int i = 0; i < 12; i++) {
-            int what = i;
-            on.tells("version(0, 0, " + i + ")", DYING, x -> x.version(0, 0, what), version[i]);
-        }
-        int[] light = {0, 1, 20, 5, 2, NONE, NONE, NONE, 1, 0, 0, 0};
-        for (int i = 0; i < 12; i++) {
-            int what = i;
-            on.tells("version(0, 1, " + i + ")", DYING, x -> x.version(0, 1, what), light[i]);
-        }
+        on.refusedEach("version(0, 0, ..)", DYING, (x, w) -> x.version(0, 0, w), 1, FAR);
+        on.tellsEach("version(0, 0, ..)", DYING, (x, w) -> x.version(0, 0, w), 0, 1, 10, 4, 1, 2, 0, 1, 0, 0, 0, 1);
+        on.tellsEach("version(0, 1, ..)", DYING, (x, w) -> x.version(0, 1, w), 0, 1, 20, 5, 2, NONE, NONE, NONE, 1, 0, 0, 0);
     }
 
     private static void promise10WhatAheadOfPageAndSlot() {
@@ -487,11 +458,8 @@ final class BoundsTellTest {
     private static void promise10AnEnderThatIsGoneIsStillTold() {
         Cases.Run run = Cases.text("row 1 1 1;begin;update 2 0 1 2 1;abort 2;");
         int[] version = {0, 1, 1, 1, 1, 2, 0, 1, 0, 0, 0, 0};
-        for (int i = 0; i < 12; i++) {
-            int what = i;
-            on.good("version(0, 0, " + i + ")", run, x -> x.version(0, 0, what), version[i]);
-            on.good("behind prune()", Cases.then(run, x -> x.prune(0)), x -> x.version(0, 0, what), version[i]);
-        }
+        on.tellsEach("version(0, 0, ..)", run, (x, w) -> x.version(0, 0, w), version);
+        on.tellsEach("behind prune()", Cases.then(run, x -> x.prune(0)), (x, w) -> x.version(0, 0, w), version);
         on.good("another ENDER", Cases.then(run, RowPruner::begin, x -> x.delete(3, 0)), x -> x.version(0, 0, 5), 3);
         on.good("no NEXT", Cases.then(run, RowPruner::begin, x -> x.delete(3, 0)), x -> x.version(0, 0, 7), NONE);
     }
@@ -505,13 +473,8 @@ final class BoundsTellTest {
 
     private static void promise10TheEndsOfKeyValueSize() {
         Cases.Run run = Cases.text("row 99 999 20;row 0 0 1;");
-        int[] most = {0, 99, 999, 20};
-        int[] least = {1, 0, 0, 1};
-        for (int i = 0; i < 4; i++) {
-            int what = i;
-            on.good("most", run, x -> x.version(0, 0, what), most[i]);
-            on.good("least", run, x -> x.version(0, 1, what), least[i]);
-        }
+        on.tellsEach("most", run, (x, w) -> x.version(0, 0, w), 0, 99, 999, 20);
+        on.tellsEach("least", run, (x, w) -> x.version(0, 1, w), 1, 0, 0, 1);
     }
 
     // ---- promise 11: entry
@@ -523,14 +486,8 @@ final class BoundsTellTest {
 
     private static void promise11FromTheFirstToTheLast() {
         Cases.Run run = Cases.text("row 5 1 1;row 3 1 1;");
-        int[][] entries = {{3, 0, 1, 0}, {5, 0, 0, 0}};
-        for (int i = 0; i < 2; i++) {
-            for (int w = 0; w < 4; w++) {
-                int which = i;
-                int what = w;
-                on.tells("entry(" + i + ", " + w + ")", run, x -> x.entry(which, what), entries[i][w]);
-            }
-        }
+        on.tellsEach("entry(0, ..)", run, (x, w) -> x.entry(0, w), 3, 0, 1, 0);
+        on.tellsEach("entry(1, ..)", run, (x, w) -> x.entry(1, w), 5, 0, 0, 0);
         on.refused("entry(2, 0)", run, x -> x.entry(2, 0), 5);
         on.refused("entry(most, 0)", run, x -> x.entry(Integer.MAX_VALUE, 0), 5);
         on.refused("entry(0, 0) of none", Cases.NEW, x -> x.entry(0, 0), 5);
@@ -547,7 +504,7 @@ final class BoundsTellTest {
     private static void promise11WhatFrom0To3() {
         on.refused("entry(0, -1)", DYING, x -> x.entry(0, -1), 1);
         on.refused("entry(0, 4)", DYING, x -> x.entry(0, 4), 1);
-        for (int w : FAR) on.refused("entry(0, " + w + ")", DYING, x -> x.entry(0, w), 1);
+        on.refusedEach("entry(0, ..)", DYING, (x, w) -> x.entry(0, w), 1, FAR);
     }
 
     private static void promise11WhatAheadOfI() {
@@ -558,23 +515,14 @@ final class BoundsTellTest {
     private static void promise11SortedByKeyPageSlot() {
         // Page 0: key 5 in slot 0, key 1 in slot 1; page 1: key 5, key 1; then key 5 again in page 0's slot 2.
         Cases.Run run = Cases.text("units 32;row 5 1 20;row 1 1 10;row 5 1 20;row 1 1 10;row 5 1 2;row 0 1 1;row 99 1 1;");
-        int[][] want = {{0, 1, 2}, {1, 0, 1}, {1, 1, 1}, {5, 0, 0}, {5, 0, 2}, {5, 1, 0}, {99, 1, 3}};
-        for (int i = 0; i < want.length; i++) {
-            for (int w = 0; w < 3; w++) {
-                int which = i;
-                int what = w;
-                on.good("entry(" + i + ", " + w + ")", run, x -> x.entry(which, what), want[i][w]);
-            }
-        }
+        on.tellsEach("KEY", run, (x, i) -> x.entry(i, 0), 0, 1, 1, 5, 5, 5, 99);
+        on.tellsEach("PAGE", run, (x, i) -> x.entry(i, 1), 1, 0, 1, 0, 0, 1, 1);
+        on.tellsEach("SLOT", run, (x, i) -> x.entry(i, 2), 2, 1, 1, 0, 2, 0, 3);
     }
 
     private static void promise11TheKilledOneKeepsItsPlace() {
         Cases.Run run = Cases.text("row 5 1 1;begin;insert 2 5 1 1;insert 2 5 1 1;abort 2;begin;look 3 5;insert 3 4 1 1;insert 3 5 1 1;");
-        int[] killed = {0, 0, 1, 1, 0};
-        for (int i = 0; i < 5; i++) {
-            int which = i;
-            on.good("entry(" + i + ", 3)", run, x -> x.entry(which, 3), killed[i]);
-        }
+        on.tellsEach("entry(.., 3)", run, (x, w) -> x.entry(w, 3), 0, 0, 1, 1, 0);
         on.good("they are ENTRIES still", run, x -> x.many(6), 5);
         on.good("till their STUBS are UNUSED", Cases.then(run, RowPruner::vacuum), x -> x.many(6), 3);
     }
@@ -599,7 +547,7 @@ final class BoundsTellTest {
         on.tells("txn(1, 0)", run, x -> x.txn(1, 0), 1);
         on.tells("txn(3, 0)", run, x -> x.txn(3, 0), 0);
         on.refused("txn(4, 0): the next one", run, x -> x.txn(4, 0), 2);
-        for (int t : FAR) on.refused("txn(" + t + ", 0)", run, x -> x.txn(t, 0), 2);
+        on.refusedEach("txn(.., 0)", run, (x, t) -> x.txn(t, 0), 2, FAR);
         Cases.Run full = Cases.text("begin;".repeat(59));
         on.good("txn(60, 0)", full, x -> x.txn(60, 0), 0);
         on.refused("txn(61, 0)", full, x -> x.txn(61, 0), 2);
@@ -609,12 +557,8 @@ final class BoundsTellTest {
         Cases.Run run = Cases.text("begin;begin;");
         on.refused("txn(2, -1)", run, x -> x.txn(2, -1), 1);
         on.refused("txn(2, 4)", run, x -> x.txn(2, 4), 1);
-        for (int w : FAR) on.refused("txn(2, " + w + ")", run, x -> x.txn(2, w), 1);
-        int[] txn = {0, 2, 1, NONE};
-        for (int i = 0; i < 4; i++) {
-            int what = i;
-            on.tells("txn(3, " + i + ")", run, x -> x.txn(3, what), txn[i]);
-        }
+        on.refusedEach("txn(2, ..)", run, (x, w) -> x.txn(2, w), 1, FAR);
+        on.tellsEach("txn(3, ..)", run, (x, w) -> x.txn(3, w), 0, 2, 1, NONE);
     }
 
     private static void promise12WhatAheadOfTheTransaction() {
@@ -695,10 +639,7 @@ final class BoundsTellTest {
 
     private static void promise13ItselfWhateverItIs() {
         Cases.Run run = Cases.text("begin;begin;begin;commit 2;abort 3;");
-        for (int t = 1; t <= 4; t++) {
-            int txn = t;
-            on.tells("knows(" + t + ", " + t + ")", run, x -> x.knows(txn, txn), 1);
-        }
+        on.tellsEach("knows()", run, (x, t) -> x.knows(t + 1, t + 1), 1, 1, 1, 1);
     }
 
     private static void promise13OneThatItNotedThoughItIsDoneNow() {
@@ -746,12 +687,8 @@ final class BoundsTellTest {
     private static void promise14WhatFrom0To3() {
         on.refused("sees(2, 0, -1)", DYING, x -> x.sees(2, 0, -1), 1);
         on.refused("sees(2, 0, 4)", DYING, x -> x.sees(2, 0, 4), 1);
-        for (int w : FAR) on.refused("sees(2, 0, " + w + ")", DYING, x -> x.sees(2, 0, w), 1);
-        int[] sees = {0, 1, 1, 20};
-        for (int i = 0; i < 4; i++) {
-            int what = i;
-            on.tells("sees(2, 0, " + i + ")", DYING, x -> x.sees(2, 0, what), sees[i]);
-        }
+        on.refusedEach("sees(2, 0, ..)", DYING, (x, w) -> x.sees(2, 0, w), 1, FAR);
+        on.tellsEach("sees(2, 0, ..)", DYING, (x, w) -> x.sees(2, 0, w), 0, 1, 1, 20);
     }
 
     private static void promise14WhatAheadOfAllElse() {
@@ -770,10 +707,7 @@ final class BoundsTellTest {
 
     private static void promise14ARowWithoutVersions() {
         Cases.Run run = Cases.text("begin;insert 2 1 1 1;abort 2;vacuum;");
-        for (int w = 0; w < 4; w++) {
-            int what = w;
-            on.refused("what " + w, run, x -> x.sees(2, 0, what), 6);
-        }
+        on.refusedEach("sees(2, 0, ..)", run, (x, w) -> x.sees(2, 0, w), 6, 0, 1, 2, 3);
     }
 
     private static void promise14TheEnderItselfDoesNotSeeIt() {
@@ -836,7 +770,7 @@ final class BoundsTellTest {
     private static void promise16WhatFrom0To1() {
         on.refused("trail(0, 0, -1)", DYING, x -> x.trail(0, 0, -1), 1);
         on.refused("trail(0, 0, 2)", DYING, x -> x.trail(0, 0, 2), 1);
-        for (int w : FAR) on.refused("trail(0, 0, " + w + ")", DYING, x -> x.trail(0, 0, w), 1);
+        on.refusedEach("trail(0, 0, ..)", DYING, (x, w) -> x.trail(0, 0, w), 1, FAR);
         Cases.Run run = Cases.text("units 32;row 1 1 20;row 1 1 5;row 1 1 1;row 1 1 20;row 2 2 2;");
         on.tells("PAGE", run, x -> x.trail(4, 0, 0), 0);
         on.tells("SLOT", run, x -> x.trail(4, 0, 1), 3);
@@ -867,10 +801,7 @@ final class BoundsTellTest {
         on.good("made first", run, x -> x.trail(1, 0, 1), 1);
         on.good("made then, in the slot ahead", run, x -> x.trail(1, 1, 1), 0);
         Cases.Run anew = Cases.then(run, RowPruner::repack, RowPruner::begin, x -> x.update(4, 1, 9, 3, 1), x -> x.update(4, 1, 9, 4, 1));
-        for (int i = 0; i < 3; i++) {
-            int which = i;
-            on.good("slot " + i, anew, x -> x.trail(1, which, 1), i);
-        }
+        on.tellsEach("SLOT", anew, (x, i) -> x.trail(1, i, 1), 0, 1, 2);
     }
 
     // ---- promise 17: event

@@ -27,17 +27,11 @@ final class BoundsTextTest {
     // ---- promise 1: a new object
 
     private static void promise1ManyOfANewObject() {
-        int[] many = {64, 3, 5, 0, 2, 2, 0, 0, 0, 0, 0, 0, 0, 0, 0, 0, 0};
-        for (int i = 0; i < many.length; i++) on.tells("many(" + i + ")", Cases.NEW, what(i), many[i]);
-    }
-
-    private static Cases.Call what(int i) {
-        return x -> x.many(i);
+        on.tellsEach("many()", Cases.NEW, RowPruner::many, 64, 3, 5, 0, 2, 2, 0, 0, 0, 0, 0, 0, 0, 0, 0, 0, 0);
     }
 
     private static void promise1CountsOfANewObject() {
-        RowPruner x = new RowPruner();
-        for (int i = 0; i < 8; i++) due.good("counts(" + i + ")", x, x.counts(i), 0);
+        on.tellsEach("counts()", Cases.NEW, RowPruner::counts, 0, 0, 0, 0, 0, 0, 0, 0);
     }
 
     private static void promise1PagesWithoutSlots() {

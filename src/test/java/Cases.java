@@ -19,6 +19,11 @@ final class Cases {
         int on(RowPruner x);
     }
 
+    /** A call with one number left open. */
+    interface Asked {
+        int on(RowPruner x, int number);
+    }
+
     record Question(String name, Call call) { }
 
     /** With its status a question is two calls; the run ahead of them may have some 300. */
@@ -117,6 +122,19 @@ final class Cases {
     void tells(String what, Run run, Call call, int want) {
         good(what, run, call, want);
         changesNothing(what, run, call);
+    }
+
+    /** The call tells these for the numbers 0, 1, .. */
+    void tellsEach(String what, Run run, Asked asked, int... want) {
+        for (int i = 0; i < want.length; i++) {
+            int number = i;
+            tells(what + " with " + i, run, x -> asked.on(x, number), want[i]);
+        }
+    }
+
+    /** The call is refused for each of these numbers. */
+    void refusedEach(String what, Run run, Asked asked, int why, int... numbers) {
+        for (int number : numbers) refused(what + " with " + number, run, x -> asked.on(x, number), why);
     }
 
     /** The call is refused with this status, and all stays as it is. */

@@ -53,6 +53,7 @@ final class ModelTest {
         start(run);
         int calls = new int[] {25, 80, 200, 300, 400}[below(5)];
         int often = 1 + calls / 4;
+        beginning(below(8));
         int asked = 0;
         while (made.size() < calls && due.wrong() == 0) {
             step();
@@ -62,6 +63,21 @@ final class ModelTest {
             compareAll();
         }
         if (due.wrong() > 0) System.out.println("run " + run + ":\n" + told);
+    }
+
+    /** Where there is hardly any room: in the pages, in the slots, for rows, for entries, for transactions. */
+    private void beginning(int kind) {
+        switch (kind) {
+            case 0: loadText("units 32;" + "row 1 1 20;".repeat(6) + "row 2 1 2;".repeat(18) + "begin;begin;"); break;
+            case 1: loadText("units 33;age 0;" + "row 2 1 20;row 1 1 12;".repeat(6) + "row 0 1 1;begin;"); break;
+            case 2: loadText("units 96;" + "row 1 1 1;".repeat(38) + "begin;begin;"); break;
+            case 3:
+                loadText("units 96;" + "row 1 1 1;".repeat(30) + "begin;begin;begin;");
+                for (int row = 0; row < 26; row++) call("update", 2, row, 2, 2, 1);
+                break;
+            case 4: loadText("row 1 1 5;row 2 2 5;" + "begin;".repeat(40)); break;
+            default: break;
+        }
     }
 
     /** Makes the run again on a new object if the one that there is can't be asked so much more. */

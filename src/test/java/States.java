@@ -23,7 +23,27 @@ final class States {
         for (int row = 0; row < 29; row++) x.update(2, row, 2, 2, 1);
     };
 
+    /** Row 0 is ended by 2, row 1 by 3, both OPEN; 4 is free. */
+    static final Cases.Run HELD = Cases.text("row 1 1 1;row 2 2 2;begin;begin;begin;delete 2 0;delete 3 1;");
+    /** As HELD; 4 WAITS for 2. */
+    static final Cases.Run WAITING = Cases.then(HELD, x -> x.await(4, 0));
+    /** As HELD, but 3 is DONE and 2 is GONE. */
+    static final Cases.Run ENDED = Cases.then(HELD, x -> x.commit(3), x -> x.abort(2));
+    /** Rows 0 to 3, ended by 2 to 5, all OPEN; 6 has done nothing. */
+    static final Cases.Run FOUR = Cases.text("row 1 1 1;row 2 2 2;row 3 3 3;row 4 4 4;begin;begin;begin;begin;begin;"
+        + "delete 2 0;delete 3 1;delete 4 2;delete 5 3;");
+
     private States() { }
+
+    /** No such transactions where 4 is the latest one. */
+    static int[] noTxns() {
+        return new int[] {Integer.MIN_VALUE, -1, 0, 5, 61, Integer.MAX_VALUE};
+    }
+
+    /** No such rows where there are two. */
+    static int[] noRows() {
+        return new int[] {Integer.MIN_VALUE, -1, 2, 40, Integer.MAX_VALUE};
+    }
 
     /** A text whose last line, but for its ; sign, is a good one that begins with this word. */
     static String good(String word) {
