@@ -785,6 +785,7 @@ final class BoundsTellTest {
     private static void promise16NumbersAheadOfTheRow() {
         on.refused("trail(1, -1, 0)", DYING, x -> x.trail(1, -1, 0), 1);
         on.refused("trail(-1, 0, 2)", DYING, x -> x.trail(-1, 0, 2), 1);
+        on.refused("trail(0, 2, 2): there is none, either", DYING, x -> x.trail(0, 2, 2), 1);
     }
 
     private static void promise16TheRowAheadOfI() {
